@@ -172,7 +172,7 @@ public final class EndingTown {
     }
 
     private static boolean hasBit(int bits, int i) {
-        return (bits >>> i & 1) != 0;
+        return ((bits >>> i) & 1) != 0;
     }
 
     public int word(int stem, int by, int how, int i) throws NoSuchElementException {
@@ -362,6 +362,18 @@ public final class EndingTown {
         return b == 32 || b == 10;
     }
 
+    private static boolean areSame(byte[] a, int aFrom, byte[] b, int bFrom, int many) {
+        if (aFrom < 0 || aFrom + many > a.length || bFrom < 0 || bFrom + many > b.length) {
+            return false;
+        }
+        for (int i = 0; i < many; i++) {
+            if (a[aFrom + i] != b[bFrom + i]) {
+                return false;
+            }
+        }
+        return true;
+    }
+
     /** Stems, endings, changes and NOT, each in a slot of its own, and the words made of them. */
     private static final class Tongue {
         private static final int FIRST_ENDING = MOST_STEMS;
@@ -411,23 +423,17 @@ public final class EndingTown {
         }
 
         void put(int slot, byte[] row, int from, int many) {
-            length[slot] = many;
-            for (int i = 0; i < many && i < MOST_LETTERS; i++) {
-                letters[slot * MOST_LETTERS + i] = row[from + i];
+            if (many > MOST_LETTERS || from < 0 || from + many > row.length) {
+                return;
             }
+            length[slot] = many;
+            System.arraycopy(row, from, letters, slot * MOST_LETTERS, many);
         }
 
         /** Whether the slot's letters from the i-th on begin with all letters of the part. */
         private boolean standsAt(int slot, int i, int part) {
-            if (i < 0 || i + length[part] > length[slot]) {
-                return false;
-            }
-            for (int k = 0; k < length[part]; k++) {
-                if (letters[slot * MOST_LETTERS + i + k] != letters[part * MOST_LETTERS + k]) {
-                    return false;
-                }
-            }
-            return true;
+            return i >= 0 && i + length[part] <= length[slot]
+                    && areSame(letters, slot * MOST_LETTERS + i, letters, part * MOST_LETTERS, length[part]);
         }
 
         private int firstChange(int stem, int ending) {
@@ -471,27 +477,12 @@ public final class EndingTown {
         }
 
         boolean isMade(byte[] row, int from, int many) {
-            if (many != madeLength) {
-                return false;
-            }
-            for (int i = 0; i < many; i++) {
-                if (made[i] != row[from + i]) {
-                    return false;
-                }
-            }
-            return true;
+            return many == madeLength && areSame(made, 0, row, from, many);
         }
 
         boolean isNot(byte[] row, int from, int many) {
-            if (many == 0 || many != length[NOT_SLOT]) {
-                return false;
-            }
-            for (int i = 0; i < many; i++) {
-                if (letters[NOT_SLOT * MOST_LETTERS + i] != row[from + i]) {
-                    return false;
-                }
-            }
-            return true;
+            return hasNot() && many == length[NOT_SLOT]
+                    && areSame(letters, NOT_SLOT * MOST_LETTERS, row, from, many);
         }
     }
 
@@ -902,7 +893,7 @@ public final class EndingTown {
             if (kind != NUMBER) {
                 return refuse(1);
             }
-            return length <= MOST_DIGITS && value <= most || refuse(2);
+            return (length <= MOST_DIGITS && value <= most) || refuse(2);
         }
 
         /** The next token is a NUMBER of one of so many that are told. */
@@ -1311,7 +1302,7 @@ public final class EndingTown {
 
         /** HOWS by which a SAYING stands, if these are what one is told by and these one could say. */
         private int standingHows(int saying, int told, int sayable) {
-            int bits = 1 << DREAMT | ownHows[saying];
+            int bits = (1 << DREAMT) | ownHows[saying];
             if ((tellers[saying] & told) != 0) {
                 bits |= 1 << TOLD;
             }
@@ -1435,7 +1426,7 @@ public final class EndingTown {
 
         int howsFor(int person, int hour, int thing, boolean not) {
             settle();
-            int bits = 1 << DREAMT | town.ownHows(person, hour, thing, not);
+            int bits = (1 << DREAMT) | town.ownHows(person, hour, thing, not);
             int told = heardBy(person, hour) & solid;
             if ((told & about[aboutRow(thing, not)]) != 0) {
                 bits |= 1 << TOLD;
@@ -1474,7 +1465,7 @@ public final class EndingTown {
             lay();
             forget();
             int told = heardBy(person, HOURS - 1) & about[aboutRow(thing, false)];
-            int others = (1 << town.people) - 1 & ~(1 << person);
+            int others = ((1 << town.people) - 1) & ~(1 << person);
             int many = Integer.bitCount(others);
             for (int few = 0; few < many; few++) {
                 int silent = 0;
@@ -1482,7 +1473,7 @@ public final class EndingTown {
                     if (Integer.bitCount(silent) == few && !isTold(told, silent)) {
                         return silent;
                     }
-                    silent = silent - others & others;
+                    silent = (silent - others) & others;
                 }
             }
             return others;
@@ -1552,7 +1543,7 @@ public final class EndingTown {
                             return changed;
                         }
                     }
-                    more = more - helpful & helpful;
+                    more = (more - helpful) & helpful;
                 }
             }
             return must | helpful;
@@ -1586,11 +1577,11 @@ public final class EndingTown {
         }
 
         static int figure(int row, int i) {
-            return row >>> 3 * i & 7;
+            return (row >>> (3 * i)) & 7;
         }
 
         private int slot(int thing) {
-            return Integer.bitCount(things & (1 << thing) - 1);
+            return Integer.bitCount(things & ((1 << thing) - 1));
         }
 
         private int realWorld() {

@@ -207,10 +207,10 @@ public final class FaultTest {
     private static void anew() {
         EndingTown x = Check.of("stem ab;ending 2 0 c;change b c x;not n;places 3;near 0 1;person;"
                 + "thing 0 1 4 loud never;at 0 3 2;weigh 2 900 100;");
-        String bare = "stem ab;ending 2 0 c;places 3;person;person;thing 0 1 4;";
+        String bare = "stem ab;stem b;ending 2 0 c;places 3;person;person;thing 0 1 4;thing 1 1 4 loud;";
         Check.is("a second village", Check.village(x, bare), 0);
         Check.is("no change", x.word(0, 2, 0, -1), 3);
-        Check.is("not near", x.could(0, 9, 0, false), 16);
+        Check.is("not near", x.could(0, 9, 1, false), 16);
         Check.is("not moved", x.where(0, 9), 0);
         Check.is("not loud", x.thing(0, 3), 0);
         Check.is("not never", x.thing(0, 4), 0);

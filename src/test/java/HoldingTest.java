@@ -205,5 +205,17 @@ public final class HoldingTest {
         holds(x, 6, 3, 1 | 8 | 16);
         x.say(0, 2, 1, 4, false);
         holds(x, 7, 1, 0);
+        halfRule();
+    }
+
+    /** A rule one of whose grounds one couldn't say lends no eyes. */
+    private static void halfRule() {
+        EndingTown x = Check.of("stem a;stem b;stem c;stem d;places 2;thing 0 1 3;thing 1 1 3;thing 2 0 3;thing 3 1 3;"
+                + "person;person;person;at 1 3 1;at 1 4 0;rule 3 0 1;rule 3 2;");
+        x.say(1, 5, 0, 0, false);
+        x.say(0, 5, 3, 3, false);
+        holds(x, 1, 2, 1);
+        x.say(1, 5, 1, 0, false);
+        holds(x, 1, 2, 1 | 2);
     }
 }

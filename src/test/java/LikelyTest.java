@@ -12,7 +12,9 @@ public final class LikelyTest {
                 + "person;person;person;person;person;at 1 3 1;at 1 4 0;at 2 3 1;at 2 4 0;");
         Check.is("nobody says it", x.silence(0, 0), 0);
         x.say(1, 5, 0, 0, false);
+        Check.is("it holds", x.wrong(0), 0);
         Check.is("one says it", x.silence(0, 0), 2);
+        Check.is("it still does", x.wrong(0), 0);
         Check.is("to oneself", x.silence(1, 0), 0);
         x.say(3, 6, 0, 2, false);
         Check.is("another has it of him", x.silence(0, 0), 2);
@@ -34,6 +36,9 @@ public final class LikelyTest {
         Check.none("nobody", () -> x.silence(5, 0));
         Check.none("nothing", () -> x.silence(0, 2));
         leastOfTwo();
+        EndingTown y = Check.of("stem a;thing 0 0 23;person;person;person;");
+        y.say(2, 23, 0, 0, false);
+        Check.is("at the last hour", y.silence(0, 0), 4);
     }
 
     /** A chain of one teller only: silencing either would do, and the lesser bits are answered. */

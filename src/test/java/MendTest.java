@@ -24,8 +24,10 @@ public final class MendTest {
         x.say(0, 5, 0, 2, false);
         x.say(1, 5, 0, 2, false);
         x.say(2, 5, 0, 2, false);
+        Check.is("wrong ahead of it", x.wrong(0), 7);
         mend(x, 1, 1, 2, 2);
         Check.is("the sayings stay as they were", x.wrong(0), 7);
+        Check.is("rings, too", x.wrong(1), 7);
         x.say(2, 2, 0, 2, false);
         mend(x, 2, 1, 2, 2, 4);
         x.say(1, 5, 0, 0, false);

@@ -80,6 +80,7 @@ public final class ModelTest {
             for (int i = 0; i < m.said.size(); i++) {
                 Check.is(seed + " mended " + i, x.mended(i), due[i + 1]);
             }
+            Check.is(seed + " wrong(0) behind mend", x.wrong(0), m.unheld());
         }
         for (int person = 0; person < m.people; person++) {
             for (int thing = 0; thing < m.things.size(); thing++) {

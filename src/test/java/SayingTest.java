@@ -123,5 +123,11 @@ public final class SayingTest {
         clear(y, "ne", 0, 0, 0);
         unclear(y, "ne ne");
         unclear(y, "  !");
+        EndingTown z = Check.of("stem a;stem a;ending 2 0 b;ending 2 1 c;stem d;ending 2 2 c;person;person;"
+                + "thing 0 0 0;thing 2 0 0;");
+        unclear(z, "ab");
+        unclear(z, "ac");
+        unclear(z, "dc");
+        clear(z, "db", 1, 0, 0);
     }
 }
