@@ -12,15 +12,36 @@ final class Check {
 
     private static int asked = 0;
     private static int wrong = 0;
+    private static boolean muted = false;
 
     private Check() {
+    }
+
+    /** Nothing is printed from now on, only counted. */
+    static void mute() {
+        muted = true;
+    }
+
+    static int asked() {
+        return asked;
+    }
+
+    static int wrong() {
+        return wrong;
+    }
+
+    /** One more answer that isn't as due. */
+    static void fail(String what) {
+        wrong++;
+        if (!muted) {
+            System.out.println(what);
+        }
     }
 
     static void is(String what, long got, long due) {
         asked++;
         if (got != due) {
-            wrong++;
-            System.out.println(what + " answered " + got + ", due is " + due);
+            fail(what + " answered " + got + ", due is " + due);
         }
     }
 
@@ -39,8 +60,7 @@ final class Check {
             got = ILLEGAL;
         }
         if (!got.equals(due)) {
-            wrong++;
-            System.out.println(what + " answered " + got + ", due is " + due);
+            fail(what + " answered " + got + ", due is " + due);
         }
     }
 
@@ -94,6 +114,25 @@ final class Check {
             throw new IllegalStateException("fault " + fault + " at " + x.fault() + " of " + text);
         }
         return x;
+    }
+
+    /** The text without its bar has that fault where the bar is, and nothing of it is told. */
+    static void fault(int due, String text) {
+        String ahead = text.substring(0, text.indexOf('|'));
+        String whole = ahead + text.substring(text.indexOf('|') + 1);
+        EndingTown x = new EndingTown();
+        is(text + " village", village(x, whole), due);
+        is(text + " fault", x.fault(), ahead.length());
+        is(text + " STATUS", x.count(8), 1);
+        is(text + " stems", x.count(0), 0);
+    }
+
+    /** The text is without a fault. */
+    static void fine(String text) {
+        EndingTown x = new EndingTown();
+        is(text + " village", village(x, text), 0);
+        is(text + " fault", x.fault(), -1);
+        is(text + " STATUS", x.count(8), 0);
     }
 
     static void end() {
