@@ -1,8 +1,9 @@
 /** Promises 14 to 25: what is asked of SAYINGS, MEND, SILENCE, LIKELY, WORLDS, the image. */
 final class AskEdges {
     /** 0 sees the thing 0, 1 hears it; 2 and 3 come later; the thing 2 never was; 2 sees that. */
-    private static final String VILLAGE = "stem a;stem b;stem c;places 3;near 0 1;thing 0 0 3 loud;thing 1 2 9;thing 2 2 3 never;"
-            + "person;person;person;person;at 1 3 1;at 1 5 0;at 2 0 2;at 2 5 0;at 3 0 2;at 3 3 1;at 3 4 2;at 3 5 0;rule 1 0;";
+    private static final String VILLAGE = "stem a;stem b;stem c;places 3;near 0 1;thing 0 0 3 loud;thing 1 2 9;thing 2 2 3 "
+            + "never;person;person;person;person;at 1 3 1;at 1 5 0;at 2 0 2;at 2 5 0;at 3 0 2;at 3 3 1;at 3 4 2;at 3 5 0;"
+            + "rule 1 0;";
 
     private AskEdges() {
     }
@@ -19,23 +20,35 @@ final class AskEdges {
     }
 
     private static void saying(Edges edges) {
-        edges.of("Promise 14", "Of a SAYING: 0 PERSON, 1 HOUR, 2 THING, 3 HOW, 4 NOT (1), 5 whether it HOLDS (1), 6 CHAIN (0: it doesn't hold), "
-                + "7 EYES as bits.", () -> {
+        edges.of("Promise 14", "Of a SAYING: 0 PERSON, 1 HOUR, 2 THING, 3 HOW, 4 NOT (1), 5 whether it HOLDS (1), 6 CHAIN (0: "
+                + "it doesn't hold), 7 EYES as bits.", () -> {
             EndingTown x = Check.of(VILLAGE);
             x.say(2, 6, 1, 3, false);
             x.say(1, 6, 0, 1, false);
             x.say(2, 23, 2, 0, true);
             x.say(2, 0, 2, 0, true);
             x.say(3, 5, 2, 4, true);
-            int[][] due = {{2, 6, 1, 3, 0, 1, 3, 2}, {1, 6, 0, 1, 0, 1, 1, 2}, {2, 23, 2, 0, 1, 1, 1, 4}, {2, 0, 2, 0, 1, 0, 0, 0},
+            int[][] due = {{2, 6, 1, 3, 0, 1, 3, 2}, {1, 6, 0, 1, 0, 1, 1, 2}, {2, 23, 2, 0, 1, 1, 1, 4}, {2, 0, 2, 0, 1, 0, 0,
+                    0},
                 {3, 5, 2, 4, 1, 1, 1, 0}};
             for (int i = 0; i < 40; i++) {
                 Check.is("saying(" + i / 8 + ", " + i % 8 + ")", x.saying(i / 8, i % 8), due[i / 8][i % 8]);
             }
+            EndingTown y = Check.of(TextEdges.TWELVE_STEMS + TextEdges.EIGHT_THINGS
+                    + "person;person;person;person;person;person;rule 7 6 5 4;");
+            for (int i = 0; i < 19; i++) {
+                y.say(i % 5, 0, i % 7, 0, false);
+            }
+            y.say(5, 0, 7, 3, false);
+            int[] last = {5, 0, 7, 3, 0, 1, 2, 63};
+            for (int what = 0; what < 8; what++) {
+                Check.is("saying(19, " + what + ")", y.saying(19, what), last[what]);
+            }
         }, "case 5: return ground.chainOf(saying) > 0 ? 1 : 0;", "case 5: return ground.chainOf(saying);",
                 "case 4: return ledger.not[saying] ? 1 : 0;", "case 4: return ledger.not[saying] ? 0 : 1;",
                 "return eyes[saying];", "return eyes[saying] | (hasBit(held, saying) ? 0 : 1);",
-                "Arrays.fill(chain, 0);", "Arrays.fill(chain, NONE);");
+                "Arrays.fill(chain, 0);", "Arrays.fill(chain, NONE);",
+                "thingEyes = new int[MOST_SAYINGS * MOST_THINGS];", "thingEyes = new int[MOST_SAYINGS * MOST_THINGS - 1];");
         edges.of("Promise 14", "NoSuchElementException: no such SAYING, what.", () -> {
             EndingTown x = Check.of(VILLAGE);
             CallEdges.noneBeyond("of none", 0, i -> x.saying(i, 0));
@@ -49,11 +62,13 @@ final class AskEdges {
             Check.none("neither", () -> x.saying(20, 8));
         }, "if (saying < 0 || saying >= ledger.size) {", "if (saying < 0 || saying > ledger.size) {",
                 "if (saying < 0 || saying >= ledger.size) {", "if (saying >= ledger.size) {",
-                "default: throw new NoSuchElementException();\n        }\n    }\n\n    public int could", "default: return 0;\n        }\n    }\n\n    public int could");
+                "default: throw new NoSuchElementException(); } } public int could",
+                        "default: return 0; } } public int could");
     }
 
     private static void couldAndWrong(Edges edges) {
-        edges.of("Promise 15", "HOWS by which one COULD say a THING at an HOUR, as bits (bit 4, DREAMT, always; by TOLD by others' SAYINGS that HOLD).", () -> {
+        edges.of("Promise 15", "HOWS by which one COULD say a THING at an HOUR, as bits (bit 4, DREAMT, always; by TOLD by "
+                + "others' SAYINGS that HOLD).", () -> {
             EndingTown x = Check.of(VILLAGE + "rule 0 1;");
             Check.is("none but DREAMT", x.could(2, 23, 0, false), 16);
             Check.is("SEEN, and round by RULES", x.could(0, 3, 0, false), 1 | 8 | 16);
@@ -76,7 +91,8 @@ final class AskEdges {
         }, "int told = heardBy(person, hour) & solid;", "int told = heardBy(person, hour) & held;",
                 "int told = heardBy(person, hour) & solid;", "int told = heardBy(person, hour) & ~dreamt;",
                 "if ((told & about[aboutRow(thing, not)]) != 0) {", "if ((told & about[aboutRow(thing, false)]) != 0) {",
-                "int bits = (1 << DREAMT) | town.ownHows(person, hour, thing, not);", "int bits = (not ? 0 : 1 << DREAMT) | town.ownHows(person, hour, thing, not);");
+                "int bits = (1 << DREAMT) | town.ownHows(person, hour, thing, not);",
+                        "int bits = (not ? 0 : 1 << DREAMT) | town.ownHows(person, hour, thing, not);");
         edges.of("Promise 16", "SAYINGS that don't hold (what 0), RINGS (1), as bits.", () -> {
             EndingTown x = Check.of(VILLAGE);
             Check.is("of none", x.wrong(0), 0);
@@ -99,8 +115,10 @@ final class AskEdges {
         edges.of("Promise 16", "NoSuchElementException: another what.", () -> {
             CallEdges.noneBeyond("of a new object", 2, new EndingTown()::wrong);
             CallEdges.noneBeyond("of a village", 2, Check.of(VILLAGE)::wrong);
-        }, "default: throw new NoSuchElementException();\n        }\n    }\n\n    public int mend", "default: return 0;\n        }\n    }\n\n    public int mend",
-                "switch (what) {\n            case 0: return ground.unheld();", "switch (what & 1) {\n            case 0: return ground.unheld();");
+        }, "default: throw new NoSuchElementException(); } } public int mend",
+                "default: return 0; } } public int mend",
+                "switch (what) { case 0: return ground.unheld();",
+                        "switch (what & 1) { case 0: return ground.unheld();");
     }
 
     private static void mend(Edges edges) {
@@ -109,6 +127,7 @@ final class AskEdges {
             Check.is("of none", x.mend(), 0);
             x.say(0, 5, 0, 1, false);
             x.say(0, 2, 0, 0, false);
+            Check.is("both are wrong", x.wrong(0), 3);
             Check.is("both", x.mend(), 2);
             Check.is("the SAYINGS are as they were", x.wrong(0), 3);
             Check.is("by the same HOW", x.saying(0, 3), 1);
@@ -123,10 +142,13 @@ final class AskEdges {
             Check.is("which is kept", x.mended(0), 1);
             Check.none("and has but one", () -> x.mended(1));
         }, "return Integer.bitCount(changed);", "return changed;",
-                "ledger.size--;\n        ground.forget();", "ledger.size--;\n        mender.clear();\n        ground.forget();",
-                "minds.copyFrom(keptMinds);\n        ground", "minds.copyFrom(keptMinds);\n        mender.clear();\n        ground",
+                "ground.lay(); ground.forget();", "ground.lay();",
+                "ledger.size--; ground.forget();", "ledger.size--; mender.clear(); ground.forget();",
+                "minds.copyFrom(keptMinds); ground",
+                        "minds.copyFrom(keptMinds); mender.clear(); ground",
                 "size = Math.min(ledger.size, MOST_MENDED);", "size = Math.max(size, ledger.size);",
-                "hows[i] = hasBit(ground.held, i) ? ground.risenBy[i] : DREAMT;", "hows[i] = hasBit(ground.held, i) ? ground.risenBy[i] : DREAMT;\n                    ledger.how[i] = hows[i];");
+                "hows[i] = hasBit(ground.held, i) ? ground.risenBy[i] : DREAMT;",
+                        "hows[i] = hasBit(ground.held, i) ? ground.risenBy[i] : DREAMT; ledger.how[i] = hows[i];");
         edges.of("Promise 17", "NONE: there are more than 12 SAYINGS (what is kept stays).", () -> {
             EndingTown x = Check.of(VILLAGE);
             for (int i = 0; i < 12; i++) {
@@ -152,8 +174,8 @@ final class AskEdges {
             Check.is("nothing is counted", y.count(9), 0);
         }, "if (ledger.size > MOST_MENDED) {", "if (ledger.size >= MOST_MENDED) {",
                 "if (ledger.size > MOST_MENDED) {", "if (ledger.size > MOST_SAYINGS) {",
-                "if (ledger.size > MOST_MENDED) {\n", "if (ledger.size > MOST_MENDED) {\n            mender.clear();\n",
-                "if (ledger.size > MOST_MENDED) {\n", "if (ledger.size > MOST_MENDED) {\n            refusedSayings++;\n");
+                "if (ledger.size > MOST_MENDED) {", "if (ledger.size > MOST_MENDED) { mender.clear();",
+                "if (ledger.size > MOST_MENDED) {", "if (ledger.size > MOST_MENDED) { refusedSayings++;");
         edges.of("Promise 18", "By which HOW a SAYING is in the MEND that is kept.", () -> {
             EndingTown x = Check.of(VILLAGE);
             x.say(0, 5, 0, 3, false);
@@ -167,7 +189,8 @@ final class AskEdges {
             for (int i = 0; i < 6; i++) {
                 Check.is("mended(" + i + ")", x.mended(i), due[i]);
             }
-        }, "if (!hasBit(changed, i)) {\n                    hows[i] = ledger.how[i];", "if (!hasBit(changed, i)) {\n                    hows[i] = DREAMT;",
+        }, "if (!hasBit(changed, i)) { hows[i] = ledger.how[i];",
+                "if (!hasBit(changed, i)) { hows[i] = DREAMT;",
                 "hows[i] = hasBit(ground.held, i) ? ground.risenBy[i] : DREAMT;", "hows[i] = DREAMT;");
         edges.of("Promise 18", "NoSuchElementException: none is kept, no such SAYING of it.", () -> {
             EndingTown x = Check.of(VILLAGE);
@@ -198,11 +221,14 @@ final class AskEdges {
             Check.is("0 and 1", x.silence(3, 0), 3);
             Check.is("1 for 0", x.silence(0, 0), 2);
             x.say(3, 6, 0, 2, false);
+            Check.is("all hold", x.wrong(0), 0);
             Check.is("1 and 3 for 0", x.silence(0, 0), 10);
             Check.is("all still hold", x.wrong(0), 0);
             Check.is("as they did", x.saying(2, 6), 2);
         }, "return silent;", "return Integer.bitCount(silent);",
-                "int fewestSilent(int person, int thing) {\n            lay();\n            forget();", "int fewestSilent(int person, int thing) {\n            settle();");
+                "int fewestSilent(int person, int thing) { lay(); forget();",
+                        "int fewestSilent(int person, int thing) { settle();",
+                "lay(); forget(); int told", "lay(); int told");
         edges.of("Promise 20", "How LIKELY, in millionths.", () -> {
             EndingTown x = Check.of("stem a;thing 0 0 0;person;person;weigh 0 999 0;weigh 1 0 999;weigh 2 1 6;");
             Check.is("at first", x.likely(0, 0), 500000);
@@ -230,14 +256,18 @@ final class AskEdges {
             Check.is("of others", x.worlds(6), 4);
             Check.is("not of that one", x.known(0, 1, 0, false), false);
             Check.is("nor any words of it", x.tell(0, 0, false), -1);
-        }, "left = (1 << (1 << Integer.bitCount(some))) - 1;", "left = left == 0 ? (1 << (1 << Integer.bitCount(some))) - 1 : left;",
-                "things = some;\n            left", "things |= some;\n            left",
-                "minds.open(things);\n        return Integer.bitCount(minds.left);", "minds.open(things);\n        return Integer.bitCount(things);");
+        }, "left = (1 << (1 << Integer.bitCount(some))) - 1;",
+                "left = left == 0 ? (1 << (1 << Integer.bitCount(some))) - 1 : left;",
+                "things = some; left", "things |= some; left",
+                "minds.open(things); return Integer.bitCount(minds.left);",
+                        "minds.open(things); return Integer.bitCount(things);");
         edges.of("Promise 21", "IllegalArgumentException: bits of THINGS that there aren't, more than 4, none.", () -> {
-            EndingTown x = Check.of(TextEdges.TWELVE_STEMS + "thing 0 0 0;thing 1 0 0;thing 2 0 0;thing 3 0 0;thing 4 0 0;person;");
+            EndingTown x = Check.of(TextEdges.TWELVE_STEMS + "thing 0 0 0;thing 1 0 0;thing 2 0 0;thing 3 0 0;"
+                    + "thing 4 0 0;person;");
             x.worlds(1);
             x.tell(0, 0, false);
-            int[] odd = {0, 31, 32, 33, 63, 64, 128, 256, 65536, -1, -2, -32, -31, Integer.MIN_VALUE, Integer.MAX_VALUE, Integer.MIN_VALUE + 1};
+            int[] odd = {0, 31, 32, 33, 63, 64, 128, 256, 65536, -1, -2, -32, -31, Integer.MIN_VALUE, Integer.MAX_VALUE,
+                    Integer.MIN_VALUE + 1};
             for (int things : odd) {
                 Check.illegal("worlds(" + things + ")", () -> x.worlds(things));
                 Check.is("those that there are stay", x.count(11), 1);
@@ -266,7 +296,8 @@ final class AskEdges {
             Check.is("1 knows it now", x.tell(1, 0, false), 4);
             Check.is("2 knows that 2 is not so", x.tell(2, 2, true), 2);
             Check.is("count(11)", x.count(11), 2);
-        }, "return NONE;\n        }\n        return Integer.bitCount(minds.left);", "return NONE;\n        }\n        return minds.left;");
+        }, "return NONE; } return Integer.bitCount(minds.left);",
+                "return NONE; } return minds.left;");
         edges.of("Promise 22", "NONE (STATUS 2): he doesn't KNOW it, no WORLDS are told, it is none of their THINGS.", () -> {
             EndingTown x = Check.of(VILLAGE);
             Check.is("no WORLDS", x.tell(0, 0, false), -1);
@@ -287,16 +318,21 @@ final class AskEdges {
             Check.is("nor another", x.tell(2, 1, true), -1);
             Check.is("STATUS 2", x.count(10), 6);
             Check.is("all are left", x.count(11), 2);
-        }, "boolean hear(int person, int thing, boolean not) {\n            if (!hasBit(things, thing)) {", "boolean hear(int person, int thing, boolean not) {\n            if (things == 0) {",
-                "boolean hear(int person, int thing, boolean not) {\n            if (!hasBit(things, thing)) {", "boolean hear(int person, int thing, boolean not) {\n            if (things != 0 && !hasBit(things, thing)) {\n                left = 1;",
-                "refusedWords++;\n            return NONE;", "refusedWords += minds.left > 0 ? 1 : 0;\n            return NONE;",
-                "refusedWords++;\n            return NONE;", "refusedWords++;\n            return Integer.bitCount(minds.left);",
+        }, "boolean hear(int person, int thing, boolean not) { if (!hasBit(things, thing)) {",
+                "boolean hear(int person, int thing, boolean not) { if (things == 0) {",
+                "boolean hear(int person, int thing, boolean not) { if (!hasBit(things, thing)) {",
+                        "boolean hear(int person, int thing, boolean not) { if (things != 0 && !hasBit(things, thing)) { left "
+                                + "= 1;",
+                "refusedWords++; return NONE;", "refusedWords += minds.left > 0 ? 1 : 0; return NONE;",
+                "refusedWords++; return NONE;", "refusedWords++; return Integer.bitCount(minds.left);",
                 "if (!hasBit(knowing, realWorld())) {", "if (knowing == 0) {");
     }
 
     private static void known(Edges edges) {
-        edges.of("Promise 23", "Whether it is KNOWN by a row of PEOPLE (the first one the lowest figure of row to the base 8, many of them).", () -> {
-            EndingTown x = Check.of("stem a;places 2;thing 0 0 0;person;person;person;person;person;person;at 1 0 1;at 3 0 1;at 4 0 1;");
+        edges.of("Promise 23", "Whether it is KNOWN by a row of PEOPLE (the first one the lowest figure of row to the base 8, "
+                + "many of them).", () -> {
+            EndingTown x = Check.of("stem a;places 2;thing 0 0 0;person;person;person;person;person;person;at 1 0 1;"
+                    + "at 3 0 1;at 4 0 1;");
             x.worlds(1);
             // 0, 2 and 5 know of it
             for (int row = 0; row < 4096; row++) {
@@ -313,8 +349,10 @@ final class AskEdges {
             }
             Check.is("higher figures count for nothing", x.known(017777777770, 1, 0, false), true);
             Check.is("higher figures count for nothing", x.known(017777770250, 4, 0, false), true);
-        }, "return (row >>> (3 * i)) & 7;", "return (row >>> (3 * i)) & 3;", "return (row >>> (3 * i)) & 7;", "return (row >>> (4 * i)) & 7;",
-                "for (int i = 0; i < many; i++) {\n            if (!town.hasPerson", "for (int i = 0; i < MOST_ROW; i++) {\n            if (!town.hasPerson",
+        }, "return (row >>> (3 * i)) & 7;", "return (row >>> (3 * i)) & 3;", "return (row >>> (3 * i)) & 7;",
+                "return (row >>> (4 * i)) & 7;",
+                "for (int i = 0; i < many; i++) { if (!town.hasPerson",
+                        "for (int i = 0; i < MOST_ROW; i++) { if (!town.hasPerson",
                 "some = knowing(figure(row, i), some);", "some = knowing(figure(row, 0), some);");
         edges.of("Promise 23", "False, too: no WORLDS are told, it is none of their THINGS.", () -> {
             EndingTown x = Check.of(VILLAGE);
@@ -328,10 +366,15 @@ final class AskEdges {
             Check.is("none of their THINGS, of which he knows one", x.known(2, 1, 0, true), false);
             Check.is("nor another", x.known(2, 1, 1, true), false);
             Check.is("no words", x.count(10), 0);
-        }, "boolean isKnown(int row, int many, int thing, boolean not) {\n            if (!hasBit(things, thing)) {", "boolean isKnown(int row, int many, int thing, boolean not) {\n            if (left == 0) {",
-                "boolean isKnown(int row, int many, int thing, boolean not) {\n            if (!hasBit(things, thing)) {", "boolean isKnown(int row, int many, int thing, boolean not) {\n            if (things == 0) {\n                return true;\n            }\n            if (!hasBit(things, thing)) {",
-                "boolean isKnown(int row, int many, int thing, boolean not) {\n            if (!hasBit(things, thing)) {\n                return false;", "boolean isKnown(int row, int many, int thing, boolean not) {\n            if (!hasBit(things, thing)) {\n                return not;");
-        edges.of("Promise 23", "IllegalArgumentException (behind NoSuchElementException): many is not 1 to 4, one of these is no PERSON.", () -> {
+        }, "boolean isKnown(int row, int many, int thing, boolean not) { if (!hasBit(things, thing)) {",
+                "boolean isKnown(int row, int many, int thing, boolean not) { if (left == 0) {",
+                "boolean isKnown(int row, int many, int thing, boolean not) { if (!hasBit(things, thing)) {",
+                        "boolean isKnown(int row, int many, int thing, boolean not) { if (things == 0) { return true; } if "
+                                + "(!hasBit(things, thing)) {",
+                "boolean isKnown(int row, int many, int thing, boolean not) { if (!hasBit(things, thing)) { return false;",
+                        "boolean isKnown(int row, int many, int thing, boolean not) { if (!hasBit(things, thing)) { return not;");
+        edges.of("Promise 23", "IllegalArgumentException (behind NoSuchElementException): many is not 1 to 4, one of these is "
+                + "no PERSON.", () -> {
             EndingTown x = Check.of(VILLAGE);
             for (int time = 0; time < 2; time++) {
                 int[] odd = {0, -1, 5, 6, 33, 257, Integer.MIN_VALUE, Integer.MAX_VALUE};
@@ -355,11 +398,15 @@ final class AskEdges {
             }
             Check.illegal("nobody", () -> Check.of("stem a;thing 0 0 0;").known(0, 1, 0, false) ? 1 : 0);
             Check.none("a new object", () -> new EndingTown().known(0, 0, 0, false) ? 1 : 0);
-        }, "if (many < 1 || many > MOST_ROW) {", "if (many < 0 || many > MOST_ROW) {", "if (many < 1 || many > MOST_ROW) {", "if (many < 1 || many > MOST_ROW + 1) {",
+        }, "if (many < 1 || many > MOST_ROW) {", "if (many < 0 || many > MOST_ROW) {", "if (many < 1 || many > MOST_ROW) {",
+                "if (many < 1 || many > MOST_ROW + 1) {",
                 "MOST_ROW = 4;", "MOST_ROW = 3;",
-                "for (int i = 0; i < many; i++) {\n            if (!town.hasPerson", "for (int i = 0; i < many - 1; i++) {\n            if (!town.hasPerson",
-                "needThing(thing);\n        if (many < 1 || many > MOST_ROW) {\n            throw new IllegalArgumentException();\n        }", "if (many < 1 || many > MOST_ROW) {\n            throw new IllegalArgumentException();\n        }\n        needThing(thing);",
-                "if (!town.hasPerson(Minds.figure(row, i))) {", "if (minds.left != 0 && !town.hasPerson(Minds.figure(row, i))) {");
+                "for (int i = 0; i < many; i++) { if (!town.hasPerson",
+                        "for (int i = 0; i < many - 1; i++) { if (!town.hasPerson",
+                "needThing(thing); if (many < 1 || many > MOST_ROW) { throw new IllegalArgumentException(); }",
+                        "if (many < 1 || many > MOST_ROW) { throw new IllegalArgumentException(); } needThing(thing);",
+                "if (!town.hasPerson(Minds.figure(row, i))) {",
+                        "if (minds.left != 0 && !town.hasPerson(Minds.figure(row, i))) {");
     }
 
     private static void image(Edges edges) {
@@ -403,10 +450,16 @@ final class AskEdges {
             Check.is("an empty one", y.restore(), true);
             Check.is("no SAYINGS", y.count(6), 0);
             Check.is("no WORLDS", y.count(11), 0);
-        }, "keptLedger.copyFrom(ledger);", "if (!imageKept) {\n            keptLedger.copyFrom(ledger);\n        }", "keptMinds.copyFrom(minds);\n", "keptMinds.left = minds.left;\n",
-                "keptMinds.copyFrom(minds);\n", "", "for (int i = 0; i < not.length; i++) {", "for (int i = 0; i < not.length - 1; i++) {",
-                "keptLedger.copyFrom(ledger);", "keptLedger.copyFrom(ledger);\n        ledger.size = 0;",
-                "System.arraycopy(other.hour, 0, hour, 0, hour.length);", "System.arraycopy(other.hour, 0, hour, 0, hour.length - 1);");
+            EndingTown z = new EndingTown();
+            z.image();
+            Check.is("of a new object", z.restore(), true);
+        }, "keptLedger.copyFrom(ledger);", "if (!imageKept) { keptLedger.copyFrom(ledger); }",
+                "keptMinds.copyFrom(minds);", "keptMinds.left = minds.left;",
+                "keptMinds.copyFrom(minds);", "", "for (int i = 0; i < not.length; i++) {",
+                        "for (int i = 0; i < not.length - 1; i++) {",
+                "keptLedger.copyFrom(ledger);", "keptLedger.copyFrom(ledger); ledger.size = 0;",
+                "System.arraycopy(other.hour, 0, hour, 0, hour.length);",
+                        "System.arraycopy(other.hour, 0, hour, 0, hour.length - 1);");
         edges.of("Promise 25", "They are as the image again: true.", () -> {
             EndingTown x = Check.of(VILLAGE);
             x.say(0, 5, 0, 0, false);
@@ -431,9 +484,10 @@ final class AskEdges {
             Check.village(x, "foo");
             Check.is("behind a FAULT", x.restore(), true);
             Check.is("as it was", x.count(6), 2);
-        }, "minds.copyFrom(keptMinds);\n        ground.forget();", "minds.copyFrom(keptMinds);", "minds.copyFrom(keptMinds);\n        ground", "ground",
-                "ledger.copyFrom(keptLedger);\n        minds", "minds",
-                "ground.forget();\n        return true;", "ground.forget();\n        imageKept = false;\n        return true;");
+        }, "minds.copyFrom(keptMinds); ground.forget();", "minds.copyFrom(keptMinds);",
+                "minds.copyFrom(keptMinds); ground", "ground",
+                "ledger.copyFrom(keptLedger); minds", "minds",
+                "ground.forget(); return true;", "ground.forget(); imageKept = false; return true;");
         edges.of("Promise 25", "False: there is none.", () -> {
             EndingTown x = new EndingTown();
             Check.is("of a new object", x.restore(), false);
@@ -449,7 +503,8 @@ final class AskEdges {
             x.say(0, 5, 0, 0, false);
             Check.is("of a new village", x.restore(), false);
             Check.is("SAYINGS stay", x.count(6), 2);
-        }, "if (!imageKept) {\n            return false;", "if (!imageKept) {\n            ledger.size = 0;\n            return false;",
-                "        imageKept = false;\n        ground", "        ground", "if (!imageKept) {\n            return false;", "if (!imageKept) {\n            return true;");
+        }, "if (!imageKept) { return false;", "if (!imageKept) { ledger.size = 0; return false;",
+                "imageKept = false; ground", "ground", "if (!imageKept) { return false;",
+                        "if (!imageKept) { return true;");
     }
 }

@@ -12,6 +12,8 @@ import java.util.concurrent.Executors;
 import java.util.concurrent.Future;
 import java.util.concurrent.TimeUnit;
 import java.util.concurrent.TimeoutException;
+import java.util.regex.Matcher;
+import java.util.regex.Pattern;
 
 /** Breaks the program, one sentence of the document after another: the sentence's own test must fail each time. */
 public final class BreakTest {
@@ -33,11 +35,15 @@ public final class BreakTest {
 
         @Override
         public String call() throws ReflectiveOperationException {
-            int at = source.indexOf(old);
-            if (at < 0 || source.indexOf(old, at + 1) >= 0) {
-                return "does not stand just once in the program";
+            Matcher place = place();
+            if (!place.find()) {
+                return "does not stand in the program";
             }
-            Map<String, byte[]> classes = BrokenProgram.compiled(source.replace(old, broken));
+            String text = source.substring(0, place.start()) + broken + source.substring(place.end());
+            if (place.find()) {
+                return "stands in the program more than once";
+            }
+            Map<String, byte[]> classes = BrokenProgram.compiled(text);
             if (classes.isEmpty()) {
                 return "does not compile when broken";
             }
@@ -46,6 +52,15 @@ public final class BreakTest {
             // it is a class of another loader, and so of another package
             ask.setAccessible(true);
             return ask.invoke(null, edge).equals(0) ? "goes unnoticed" : "";
+        }
+
+        /** Where the old text stands, however its lines are broken there. */
+        private Matcher place() {
+            StringBuilder pattern = new StringBuilder();
+            for (String part : old.split(" ")) {
+                pattern.append(pattern.length() > 0 ? "\\s+" : "").append(Pattern.quote(part));
+            }
+            return Pattern.compile(pattern.toString()).matcher(source);
         }
     }
 

@@ -12,13 +12,19 @@ import java.util.regex.Pattern;
 
 /** The face of the document and, as far as a look at the text shows them, the rules of LANGUAGE.md. */
 public final class FaceTest {
+    private static final String NONE_SUCH = " throws NoSuchElementException";
+    private static final String ILLEGAL = " throws IllegalArgumentException";
+    private static final String BOTH = " throws NoSuchElementException, IllegalArgumentException";
     private static final String[] FACE = {
-        "int feed(int, int, int, int, int)", "int village(int)", "int fault()", "int count(int)", "int where(int, int)",
-        "int thing(int, int)", "int word(int, int, int, int)", "int apart(int)", "int way(int)",
-        "int say(int, int, int, int, boolean)", "int utter(int, int, int)", "int unsay()", "int saying(int, int)",
-        "int could(int, int, int, boolean)", "int wrong(int)", "int mend()", "int mended(int)", "int silence(int, int)",
-        "int likely(int, int)", "int worlds(int)", "int tell(int, int, boolean)",
-        "boolean known(int, int, int, boolean)", "void image()", "boolean restore()"};
+        "int feed(int, int, int, int, int)", "int village(int)" + ILLEGAL, "int fault()",
+        "int count(int)" + NONE_SUCH, "int where(int, int)" + NONE_SUCH, "int thing(int, int)" + NONE_SUCH,
+        "int word(int, int, int, int)" + NONE_SUCH, "int apart(int)" + ILLEGAL, "int way(int)" + NONE_SUCH,
+        "int say(int, int, int, int, boolean)" + NONE_SUCH, "int utter(int, int, int)" + BOTH, "int unsay()",
+        "int saying(int, int)" + NONE_SUCH, "int could(int, int, int, boolean)" + NONE_SUCH,
+        "int wrong(int)" + NONE_SUCH, "int mend()", "int mended(int)" + NONE_SUCH,
+        "int silence(int, int)" + NONE_SUCH, "int likely(int, int)" + NONE_SUCH, "int worlds(int)" + ILLEGAL,
+        "int tell(int, int, boolean)" + NONE_SUCH, "boolean known(int, int, int, boolean)" + BOTH, "void image()",
+        "boolean restore()"};
     private static final String[] NEVER = {"->", "::", "\\btry\\b", "\\bcatch\\b", "\\bfinally\\b", "\\bsynchronized\\b",
         "\\bassert\\b", "\\bprotected\\b", "\\bstatic \\{", "Exact\\(", "\\bSystem\\.(?!arraycopy)", "\\bdouble\\b",
         "\\bfloat\\b", "\\bObject\\b", "\\bString\\[", "\\.hashCode\\(", "\\.toString\\("};
@@ -41,9 +47,8 @@ public final class FaceTest {
     }
 
     private static String plain(Method method) {
-        String text = method.toString();
-        text = text.substring(0, text.indexOf(')') + 1).replace("public ", "").replace("EndingTown.", "");
-        return text.replace(",", ", ");
+        String text = method.toString().replace("public ", "").replace("EndingTown.", "");
+        return text.replace("java.lang.", "").replace("java.util.", "").replace(",", ", ");
     }
 
     private static void members() {

@@ -24,8 +24,16 @@ final class FaultEdges {
             Check.fault(3, "near |1 1000;");
             Check.fault(1, "|foo;stem abcdefghi;");
             Check.fault(2, "ending |3 9 abcdefghi;");
+            Check.fault(2, "stem |abcdefghi;foo;");
+            Check.fault(2, "change |abcdefghi abcdefghi abcdefghi;");
+            Check.fault(2, THINGS + "rule 0 1 2 3 |4 5;foo;");
+            Check.fault(3, THINGS + "rule 0 |8 8;foo;");
+            Check.fault(4, THINGS + "rule 0 1 |1 1;foo;");
+            Check.fault(2, "places |0;foo;");
+            Check.fault(4, "not a;|not b;foo;");
+            Check.fault(4, "ending 0 0 a;ending 0 |0 b;foo;");
         }, "more = kind != OVER && readLine(town);",
-                "boolean fine = kind == OVER || readLine(town);\n                more = kind != OVER || !fine && at < end;");
+                "boolean fine = kind == OVER || readLine(town); more = kind != OVER || !fine && at < end;");
         edges.of(TERMS, "at a TOKEN's first byte", () -> {
             Check.fault(2, "stem  \n |abcdefghi  ;");
             Check.fault(2, "places \n|1000  ;");
@@ -33,7 +41,7 @@ final class FaultEdges {
             Check.fault(4, "not a; \n |not b;");
         }, "faultPlace = start;", "faultPlace = at;",
                 "faultPlace = start;", "faultPlace = at - 1;");
-        edges.of(TERMS, "of one TOKEN the least: 1", () -> {
+        edges.of(TERMS, "of one TOKEN the least", () -> {
             Check.fault(1, "stem |1000;");
             Check.fault(1, "person |1000;");
             Check.fault(1, "|abcdefghijk;");
@@ -46,15 +54,16 @@ final class FaultEdges {
             Check.fault(4, "places 2;stem a;thing 0 0 0;|places 2;");
             Check.fault(4, "places 2;near 0 1;|places 2;");
             Check.fault(2, THINGS + "|thing 0 0 0;");
-        }, "if (placesTold) {\n                return refuse(4);\n            }\n            if (placesUsed) {\n                return refuse(5);\n            }",
-                "if (placesUsed) {\n                return refuse(5);\n            }\n            if (placesTold) {\n                return refuse(4);\n            }",
-                "if (told >= MOST_GROUNDS) {\n                return refuse(2);\n            }\n            if (value >= town.things) {\n                return refuse(3);\n            }",
-                "if (value >= town.things) {\n                return refuse(3);\n            }\n            if (told >= MOST_GROUNDS) {\n                return refuse(2);\n            }",
-                "return isNumber(ANY) && (value < many || refuse(3));", "return kind == NUMBER && value >= many ? refuse(3) : isNumber(ANY);");
+        }, "if (placesTold) { return refuse(4); } if (placesUsed) { return refuse(5); }",
+                "if (placesUsed) { return refuse(5); } if (placesTold) { return refuse(4); }",
+                "if (told >= MOST_GROUNDS) { return refuse(2); } if (value >= town.things) { return refuse(3); }",
+                "if (value >= town.things) { return refuse(3); } if (told >= MOST_GROUNDS) { return refuse(2); }",
+                "return isNumber(ANY) && (value < many || refuse(3));",
+                        "return kind == NUMBER && value >= many ? refuse(3) : isNumber(ANY);");
     }
 
     private static void cannotStand(Edges edges) {
-        edges.of(TERMS, "a TOKEN that can't stand there", () -> {
+        edges.of(TERMS, "1 a TOKEN that can't stand there", () -> {
             Check.fault(1, "|a;");
             Check.fault(1, "|1;");
             Check.fault(1, "|;");
@@ -66,10 +75,13 @@ final class FaultEdges {
             Check.fault(1, "person |1;");
             Check.fault(1, "person;|;");
             Check.fault(1, THINGS + "rule 0 1 2 3 |a;");
-        }, "return is(\"weigh\") ? weighLine(town) : refuse(1);", "return is(\"weigh\") ? weighLine(town) : kind == SEMICOLON || refuse(1);",
+        }, "return is(\"weigh\") ? weighLine(town) : refuse(1);",
+                "return is(\"weigh\") ? weighLine(town) : kind == SEMICOLON || refuse(1);",
                 "return kind == SEMICOLON || refuse(1);", "return kind == SEMICOLON || refuse(2);",
-                "if (kind != NUMBER) {\n                return refuse(1);", "if (kind != NUMBER) {\n                return refuse(2);",
-                "if (kind != LETTERS) {\n                return refuse(1);", "if (kind != LETTERS) {\n                return refuse(3);");
+                "if (kind != NUMBER) { return refuse(1);",
+                        "if (kind != NUMBER) { return refuse(2);",
+                "if (kind != LETTERS) { return refuse(1);",
+                        "if (kind != LETTERS) { return refuse(3);");
         edges.of(TERMS, "or is none", () -> {
             Check.fault(1, "|!");
             Check.fault(1, "|\u0000");
@@ -80,8 +92,8 @@ final class FaultEdges {
             Check.fault(1, "places |+1;");
             Check.fault(1, "weigh 0 0|.5 0;");
         }, "kind = NO_TOKEN;", "kind = OVER;",
-                "kind = NO_TOKEN;", "kind = SEMICOLON;\n                at++;",
-                "kind = NO_TOKEN;", "kind = NUMBER;\n                at++;");
+                "kind = NO_TOKEN;", "kind = SEMICOLON; at++;",
+                "kind = NO_TOKEN;", "kind = NUMBER; at++;");
         edges.of(TERMS, "(the text's length where it ends too soon)", () -> {
             Check.fault(1, "person|");
             Check.fault(1, "person  \n |");
@@ -93,7 +105,7 @@ final class FaultEdges {
             Check.feed(x, "stem a;");
             Check.is("the text's, not the tape's", x.village(6), 1);
             Check.is("its length", x.fault(), 6);
-        }, "kind = OVER;\n", "kind = OVER;\n                start = Math.max(0, at - 1);\n");
+        }, "kind = OVER;", "kind = OVER; start = Math.max(0, at - 1);");
     }
 
     private static void tooMuch(Edges edges) {
@@ -130,20 +142,26 @@ final class FaultEdges {
             Check.fault(2, "ending 0 |5 a;");
             Check.fault(2, "weigh |5 0 0;");
             Check.fault(2, "weigh |999 0 0;");
-        }, "int by = value;\n            if (!number(HOWS - 1))", "int by = value;\n            if (!number(HOWS))",
-                "int by = value;\n            if (!number(HOWS - 1))", "int by = value;\n            if (!number(HOWS - 2))",
-                "weighLine(Town town) {\n            if (!number(HOWS - 1))", "weighLine(Town town) {\n            if (!number(HOWS))",
-                "weighLine(Town town) {\n            if (!number(HOWS - 1))", "weighLine(Town town) {\n            if (!number(HOWS - 2))");
+        }, "int by = value; if (!number(HOWS - 1))", "int by = value; if (!number(HOWS))",
+                "int by = value; if (!number(HOWS - 1))", "int by = value; if (!number(HOWS - 2))",
+                "weighLine(Town town) { if (!number(HOWS - 1))",
+                        "weighLine(Town town) { if (!number(HOWS))",
+                "weighLine(Town town) { if (!number(HOWS - 1))",
+                        "weighLine(Town town) { if (!number(HOWS - 2))");
         edges.of(TERMS, "an HOUR above 23", () -> {
             Check.fine("stem a;person;thing 0 0 23;at 0 23 0;");
             Check.fault(2, "stem a;thing 0 0 |24;");
             Check.fault(2, "stem a;thing 0 0 |999;");
             Check.fault(2, "person;at 0 |24 0;");
             Check.fault(2, "person;at 0 |999 0;");
-        }, "town.placeOf[thing] = value;\n            if (!number(HOURS - 1))", "town.placeOf[thing] = value;\n            if (!number(HOURS))",
-                "town.placeOf[thing] = value;\n            if (!number(HOURS - 1))", "town.placeOf[thing] = value;\n            if (!number(HOURS - 2))",
-                "int person = value;\n            if (!number(HOURS - 1))", "int person = value;\n            if (!number(HOURS))",
-                "int person = value;\n            if (!number(HOURS - 1))", "int person = value;\n            if (!number(HOURS - 2))");
+        }, "town.placeOf[thing] = value; if (!number(HOURS - 1))",
+                "town.placeOf[thing] = value; if (!number(HOURS))",
+                "town.placeOf[thing] = value; if (!number(HOURS - 1))",
+                        "town.placeOf[thing] = value; if (!number(HOURS - 2))",
+                "int person = value; if (!number(HOURS - 1))",
+                        "int person = value; if (!number(HOURS))",
+                "int person = value; if (!number(HOURS - 1))",
+                        "int person = value; if (!number(HOURS - 2))");
         edges.of(TERMS, "a CHANCE above 1000", () -> {
             Check.fine("weigh 0 999 999;weigh 4 000 000;");
             Check.fault(2, "weigh 0 |1001 0;");
@@ -153,7 +171,7 @@ final class FaultEdges {
             Check.fault(2, "weigh 0 |1000 0;");
             Check.fault(2, "weigh 0 0 |1000;");
         }, "(length <= MOST_DIGITS && value <= most)", "(length <= (most == 1000 ? 4 : MOST_DIGITS) && value <= most)",
-                "how = value;\n            if (!number(1000))", "how = value;\n            if (!number(998))");
+                "how = value; if (!number(1000))", "how = value; if (!number(998))");
         edges.of(TERMS, "places not 1 to 6", () -> {
             Check.fine("places 1;");
             Check.fine("places 6;");
@@ -183,7 +201,7 @@ final class FaultEdges {
             Check.fault(2, STEMS + "|stem 1;");
             Check.fault(2, STEMS + "|stem");
         }, "if (tongue.stems >= MOST_STEMS) {", "if (tongue.stems > MOST_STEMS) {",
-                "if (tongue.stems >= MOST_STEMS) {", "step();\n            if (tongue.stems >= MOST_STEMS) {");
+                "if (tongue.stems >= MOST_STEMS) {", "step(); if (tongue.stems >= MOST_STEMS) {");
         edges.of(TERMS, "the 7th CHANGE", () -> {
             Check.fine("change a b c;".repeat(6));
             Check.fault(2, "change a b c;".repeat(6) + "|change a b c;");
@@ -251,12 +269,16 @@ final class FaultEdges {
             Check.fault(3, "stem a;thing 0 |1 0;");
             Check.fault(3, "person;at 0 0 |1;");
             Check.fine("places 2;near 1 0;stem a;thing 0 1 0;person;at 0 0 1;");
-        }, "placesUsed = true;\n            if (!oneOf(town.places)) {", "placesUsed = true;\n            if (!oneOf(MOST_PLACES)) {",
-                "int first = value;\n            if (!oneOf(town.places)) {", "int first = value;\n            if (!oneOf(town.places + 1)) {",
-                "town.stemOf[thing] = value;\n            if (!oneOf(town.places)) {",
-                "town.stemOf[thing] = value;\n            if (!oneOf(town.places + 1)) {",
-                "int hour = value;\n            if (!oneOf(town.places)) {", "int hour = value;\n            if (!oneOf(town.places + 1)) {",
-                "int hour = value;\n            if (!oneOf(town.places)) {", "int hour = value;\n            if (!oneOf(town.places - 1)) {");
+        }, "placesUsed = true; if (!oneOf(town.places)) {",
+                "placesUsed = true; if (!oneOf(MOST_PLACES)) {",
+                "int first = value; if (!oneOf(town.places)) {",
+                        "int first = value; if (!oneOf(town.places + 1)) {",
+                "town.stemOf[thing] = value; if (!oneOf(town.places)) {",
+                "town.stemOf[thing] = value; if (!oneOf(town.places + 1)) {",
+                "int hour = value; if (!oneOf(town.places)) {",
+                        "int hour = value; if (!oneOf(town.places + 1)) {",
+                "int hour = value; if (!oneOf(town.places)) {",
+                        "int hour = value; if (!oneOf(town.places - 1)) {");
     }
 
     private static void toldAlready(Edges edges) {
@@ -266,14 +288,16 @@ final class FaultEdges {
             Check.fault(4, "ending 2 4 a;ending 2 |4;");
             Check.fine("ending 0 0 a;ending 0 1 a;ending 1 0 a;");
         }, "if (tongue.hasEnding(by, how)) {", "if (tongue.hasEnding(by, how) && by < 2) {",
-                "if (tongue.hasEnding(by, how)) {", "step();\n            if (tongue.hasEnding(by, how)) {",
+                "if (tongue.hasEnding(by, how)) {", "step(); if (tongue.hasEnding(by, how)) {",
                 "if (tongue.hasEnding(by, how)) {", "if (tongue.hasEnding(by, how) || tongue.hasEnding(by, 0)) {");
         edges.of(TERMS, "a second 'not'", () -> {
             Check.fault(4, "not a;|not a;");
             Check.fault(4, "not a;|not 1;");
             Check.fault(4, "not a;stem a;|not");
-        }, "if (tongue.hasNot()) {\n                return refuse(4);", "if (tongue.hasNot()) {\n                return refuse(2);",
-                "if (tongue.hasNot()) {\n                return refuse(4);", "if (tongue.hasNot() && tongue.stems > 0) {\n                return refuse(4);");
+        }, "if (tongue.hasNot()) { return refuse(4);",
+                "if (tongue.hasNot()) { return refuse(2);",
+                "if (tongue.hasNot()) { return refuse(4);",
+                        "if (tongue.hasNot() && tongue.stems > 0) { return refuse(4);");
         edges.of(TERMS, "a second 'not', 'places'", () -> {
             Check.fault(4, "places 1;|places 1;");
             Check.fault(4, "places 2;|places 9;");
@@ -291,7 +315,8 @@ final class FaultEdges {
             Check.fault(4, "stem a;thing 0 0 0;thing |0 0 0;");
             Check.fault(4, "stem a;stem b;thing 1 0 0;thing 0 0 0;thing |1 9 99;");
             Check.fine("stem a;stem a;thing 0 0 0;thing 1 0 0;");
-        }, "if (town.thingOfStem(value) != NONE) {", "if (town.thingOfStem(value) == 0) {\n                return refuse(3);\n            }\n            if (town.thingOfStem(value) != NONE) {",
+        }, "if (town.thingOfStem(value) != NONE) {", "if (town.thingOfStem(value) == 0) { return refuse(3); } if "
+                + "(town.thingOfStem(value) != NONE) {",
                 "if (town.thingOfStem(value) != NONE) {", "if (town.thingOfStem(value) == thing - 1) {");
         edges.of(TERMS, "a THING of a RULE that is the RULE's first one or told in it already", () -> {
             Check.fault(4, THINGS + "rule 7 |7;");
@@ -314,8 +339,8 @@ final class FaultEdges {
             Check.fault(5, "person;at 0 0 0;person;|places");
             Check.fault(4, "places 2;near 0 1;|places 2;");
             Check.fine("stem a;ending 0 0 a;change a a a;not a;person;weigh 0 0 0;places 6;");
-        }, "thingLine(Town town) {\n            placesUsed = true;", "thingLine(Town town) {\n            placesUsed = false;",
-                "atLine(Town town) {\n            placesUsed = true;", "atLine(Town town) {\n            placesUsed = false;",
-                "personLine(Town town) {", "personLine(Town town) {\n            placesUsed = true;");
+        }, "thingLine(Town town) { placesUsed = true;", "thingLine(Town town) { placesUsed = false;",
+                "atLine(Town town) { placesUsed = true;", "atLine(Town town) { placesUsed = false;",
+                "personLine(Town town) {", "personLine(Town town) { placesUsed = true;");
     }
 }

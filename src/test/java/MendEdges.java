@@ -55,10 +55,20 @@ final class MendEdges {
             w.unsay();
             w.unsay();
             mend(w, 0, 4);
+            // one later SAYING is fewer than two ahead of it, though the two are less as bits
+            EndingTown v = Check.of("stem a;stem b;stem c;places 2;thing 0 1 0;thing 1 1 0;thing 2 1 0;person;person;"
+                    + "at 1 0 1;at 1 1 0;rule 1 0;rule 2 0;");
+            v.say(0, 5, 1, 3, false);
+            v.say(0, 5, 2, 3, false);
+            v.say(1, 5, 0, 4, false);
+            mend(v, 1, 3, 3, 0);
         }, "MOST_MENDED = 12;", "MOST_MENDED = 11;", "MOST_MENDED = 12;", "MOST_MENDED = 13;",
-                "for (int few = 0; few < many; few++) {\n                int more = 0;", "for (int few = 1; few < many; few++) {\n                int more = 0;",
+                "for (int few = 0; few < many; few++) { int more = 0;",
+                        "for (int few = 1; few < many; few++) { int more = 0;",
                 "if ((ground.held | changed) == every) {", "if (ground.held == every) {",
-                "int helpful = every & ~must & reachable & ~ground.solid;", "int helpful = every & ~must & reachable & ~ground.held;");
+                "if (Integer.bitCount(more) == few) {", "if (more >= 0) {",
+                "int helpful = every & ~must & reachable & ~ground.solid;",
+                        "int helpful = every & ~must & reachable & ~ground.held;");
         edges.of(PART, "and by DREAMT, if by none; of like ones the least as bits.", () -> {
             EndingTown x = Check.of("stem a;thing 0 0 3;person;person;person;person;");
             for (int person = 3; person >= 0; person--) {
@@ -75,14 +85,15 @@ final class MendEdges {
             y.say(2, 2, 0, 3, true);
             mend(y, 3, 2, 0, 2, 4, 4);
         }, "more = (more - helpful) & helpful;", "more = (more - 1) & helpful;",
-                "hows[i] = hasBit(ground.held, i) ? ground.risenBy[i] : DREAMT;", "hows[i] = hasBit(ground.held, i) ? ground.risenBy[i] : ledger.how[i];");
+                "hows[i] = hasBit(ground.held, i) ? ground.risenBy[i] : DREAMT;",
+                        "hows[i] = hasBit(ground.held, i) ? ground.risenBy[i] : ledger.how[i];");
     }
 
     private static void changedHow(Edges edges) {
-        String village = "stem a;stem b;stem c;places 3;near 0 1;thing 0 0 3;thing 1 1 3 loud;thing 2 2 3;"
-                + "person;person;person;at 1 3 2;at 1 4 1;at 1 6 0;at 2 0 1;at 2 5 0;";
-        edges.of(PART, "a CHANGED one is by that HOW of SEEN, HEARD, TOLD, WORKED OUT by which, from the ground up with all others, it "
-                + "HOLDS in the first ROUND", () -> {
+        String village = "stem a;stem b;stem c;places 3;near 0 1;thing 0 0 3;thing 1 1 3 loud;"
+                + "thing 2 2 3;person;person;person;at 1 3 2;at 1 4 1;at 1 6 0;at 2 0 1;at 2 5 0;";
+        edges.of(PART, "a CHANGED one is by that HOW of SEEN, HEARD, TOLD, WORKED OUT by which, from the ground up with all "
+                + "others, it HOLDS in the first ROUND", () -> {
             EndingTown x = Check.of(village + "rule 2 0;");
             x.say(0, 5, 0, 1, false);
             x.say(0, 5, 1, 0, false);
@@ -97,8 +108,11 @@ final class MendEdges {
             y.say(2, 5, 2, 1, false);
             y.say(1, 4, 2, 1, false);
             mend(y, 3, 2, 2, 0);
-        }, "int how = hasBit(changed, i) ? firstBit(hows) : ledger.how[i];", "int how = hasBit(changed, i) ? (firstBit(hows) == HEARD ? SEEN : firstBit(hows)) : ledger.how[i];",
-                "int hows = standingHows(i, solid, can[i]);", "int hows = standingHows(i, solid, can[i]);\n                if (hasBit(changed, i) && round < 3) { hows &= ~(1 << WORKED_OUT); }",
+        }, "int how = hasBit(changed, i) ? firstBit(hows) : ledger.how[i];",
+                "int how = hasBit(changed, i) ? (firstBit(hows) == HEARD ? SEEN : firstBit(hows)) : ledger.how[i];",
+                "int hows = standingHows(i, solid, can[i]);",
+                        "int hows = standingHows(i, solid, can[i]); if (hasBit(changed, i) && round < 3) { hows &= ~(1 << "
+                                + "WORKED_OUT); }",
                 "ground.rise(changed, ledger.every());", "ground.rise(0, ledger.every());");
         edges.of(PART, "(of like ones the first HOW)", () -> {
             EndingTown x = Check.of(village + "rule 2 0;");
@@ -111,20 +125,25 @@ final class MendEdges {
             y.say(0, 6, 0, 2, false);
             y.say(0, 6, 1, 2, false);
             mend(y, 2, 0, 1);
-        }, "while (how < DREAMT && !hasBit(hows, how)) {\n                how++;\n            }\n            return how;",
-                "for (int other = how; other < DREAMT; other++) {\n                how = hasBit(hows, other) ? other : how;\n            }\n"
-                + "            return hasBit(hows, how) ? how : DREAMT;");
+        }, "while (how < DREAMT && !hasBit(hows, how)) { how++; } return how;",
+                "for (int other = how; other < DREAMT; other++) { how = hasBit(hows, other) ? other : how; } return "
+                        + "hasBit(hows, how) ? how : DREAMT;");
     }
 
     private static void silence(Edges edges) {
-        edges.of(PART, "SILENCE of a PERSON and a THING: the fewest others, all of whose SAYINGS left out he COULD not say it (without NOT) "
-                + "by TOLD at HOUR 23 any more", () -> {
+        edges.of(PART, "SILENCE of a PERSON and a THING: the fewest others, all of whose SAYINGS left out he COULD not say it "
+                + "(without NOT) by TOLD at HOUR 23 any more", () -> {
             EndingTown x = Check.of("stem a;stem b;thing 0 0 0;thing 1 0 23 never;person;person;person;person;person;person;");
             Check.is("nobody says it", x.silence(0, 0), 0);
             x.say(0, 1, 0, 0, false);
             Check.is("but he himself", x.silence(0, 0), 0);
             x.say(1, 1, 0, 4, false);
             Check.is("or in a dream", x.silence(0, 0), 0);
+            x.unsay();
+            x.unsay();
+            x.say(1, 1, 0, 1, false);
+            Check.is("or what doesn't hold", x.silence(0, 0), 0);
+            x.say(0, 1, 0, 0, false);
             x.say(5, 23, 0, 0, false);
             Check.is("at the last HOUR", x.silence(0, 0), 32);
             x.say(5, 23, 1, 0, true);
@@ -143,14 +162,25 @@ final class MendEdges {
             Check.is("both who lean on him", y.silence(0, 0), 6);
             Check.is("the one whose eyes it hangs on", y.silence(1, 0), 1);
             Check.is("alone", Check.of("stem a;thing 0 0 0;person;").silence(0, 0), 0);
-        }, "for (int few = 0; few < many; few++) {\n                int silent = 0;", "for (int few = 1; few < many; few++) {\n                int silent = 0;",
-                "int told = heardBy(person, HOURS - 1) & about[aboutRow(thing, false)];", "int told = heardBy(person, HOURS - 2) & about[aboutRow(thing, false)];",
+            // one is fewer than two, though the two are less as bits
+            EndingTown z = Check.of("stem a;places 2;thing 0 1 0;person;person;person;person;at 2 0 1;at 0 1 1;at 1 1 1;"
+                    + "at 0 2 0;at 1 2 0;");
+            z.say(2, 1, 0, 0, false);
+            z.say(0, 2, 0, 2, false);
+            z.say(1, 2, 0, 2, false);
+            Check.is("the one who saw it", z.silence(3, 0), 4);
+        }, "for (int few = 0; few < many; few++) { int silent = 0;",
+                "for (int few = 1; few < many; few++) { int silent = 0;",
+                "int told = heardBy(person, HOURS - 1) & about[aboutRow(thing, false)];",
+                        "int told = heardBy(person, HOURS - 2) & about[aboutRow(thing, false)];",
                 "int told = heardBy(person, HOURS - 1) & about[aboutRow(thing, false)];",
                 "int told = heardBy(person, HOURS - 1) & (about[aboutRow(thing, false)] | about[aboutRow(thing, true)]);",
                 "return others;", "return others & 31;",
                 "int others = ((1 << town.people) - 1) & ~(1 << person);", "int others = (1 << town.people) - 1;",
                 "if (!hasBit(silent, ledger.person[i])) {", "if (!hasBit(silent | silent << 1, ledger.person[i])) {",
-                "return (solid & told) != 0;", "return (held & told) != 0;");
+                "return (solid & told) != 0;", "return (held & told) != 0;",
+                "rise(0, left);", "rise(1, left);",
+                "if (Integer.bitCount(silent) == few && !isTold(told, silent)) {", "if (!isTold(told, silent)) {");
         edges.of(PART, "by TOLD at HOUR 23 any more; of like ones the least as bits.", () -> {
             String village = "stem a;places 3;thing 0 1 3;person;person;person;person;";
             EndingTown x = Check.of(village + "at 3 3 1;at 3 4 2;at 0 3 2;at 0 6 0;at 2 0 2;");
@@ -162,12 +192,13 @@ final class MendEdges {
             y.say(3, 7, 0, 2, false);
             Check.is("or the other way round", y.silence(1, 0), 1);
         }, "silent = (silent - others) & others;", "silent = (silent - 1) & others;",
-                "if (Integer.bitCount(silent) == few && !isTold(told, silent)) {", "if (Integer.bitCount(silent) == few && silent != 1 && !isTold(told, silent)) {");
+                "if (Integer.bitCount(silent) == few && !isTold(told, silent)) {",
+                        "if (Integer.bitCount(silent) == few && silent != 1 && !isTold(told, silent)) {");
     }
 
     private static void likely(Edges edges) {
-        String village = "stem a;stem b;places 2;thing 0 0 0;thing 1 0 0;person;person;person;at 2 5 1;"
-                + "weigh 0 900 100;weigh 1 999 0;weigh 2 0 999;";
+        String village = "stem a;stem b;places 2;thing 0 0 0;thing 1 0 0;person;person;person;at 2 5 1;weigh 0 900 100;"
+                + "weigh 1 999 0;weigh 2 0 999;";
         edges.of(PART, "LIKELY is a THING to a PERSON: 500,000 of a million at first", () -> {
             EndingTown x = Check.of(village);
             Check.is("nothing is said", x.likely(0, 0), 500000);
@@ -195,13 +226,16 @@ final class MendEdges {
         }, "if (ledger.thing[i] == thing && ledger.isHeardBy(i, person, town)) {", "if (ledger.isHeardBy(i, person, town)) {",
                 "if (ledger.thing[i] == thing && ledger.isHeardBy(i, person, town)) {", "if (ledger.thing[i] == thing) {",
                 "if (ledger.thing[i] == thing && ledger.isHeardBy(i, person, town)) {",
-                "if (ledger.thing[i] == thing && town.placeAt(person, ledger.hour[i]) == town.placeAt(ledger.person[i], ledger.hour[i])) {",
-                "int likely = MILLION / 2;\n        for (int i = 0; i < ledger.size; i++) {", "int likely = MILLION / 2;\n        for (int i = ledger.size - 1; i >= 0; i--) {");
+                "if (ledger.thing[i] == thing && town.placeAt(person, ledger.hour[i]) == town.placeAt(ledger.person[i], "
+                        + "ledger.hour[i])) {",
+                "int likely = MILLION / 2; for (int i = 0; i < ledger.size; i++) {",
+                        "int likely = MILLION / 2; for (int i = ledger.size - 1; i >= 0; i--) {");
     }
 
     private static void weighed(Edges edges) {
-        edges.of(PART, "x, being what is likely, or with NOT what is left of the million, becomes x by the first CHANCE of its HOW, by a million, "
-                + "by x by the first and (a million less x) by the second CHANCE, together, cut down", () -> {
+        edges.of(PART, "x, being what is likely, or with NOT what is left of the million, becomes x by the first CHANCE of "
+                + "its HOW, by a million, by x by the first and (a million less x) by the second CHANCE, together, cut down",
+                () -> {
             EndingTown x = Check.of("stem a;thing 0 0 0;person;person;weigh 0 1 2;weigh 1 999 1;weigh 2 0 999;weigh 3 999 0;");
             x.say(0, 0, 0, 0, false);
             Check.is("a third", x.likely(1, 0), 333333);
@@ -257,9 +291,9 @@ final class MendEdges {
             x.say(0, 0, 0, 2, false);
             x.say(0, 0, 0, 3, false);
             Check.is("nothing, against what must be", x.likely(1, 0), 0);
-        }, "if (both == 0) {\n                return likely;", "if (both == 0) {\n                return 0;",
-                "if (both == 0) {\n                return likely;", "if (both == 0) {\n                return MILLION / 2;",
-                "if (both == 0) {\n                return likely;", "if (both == 0) {\n                return (int) x;",
-                "if (both == 0) {\n                return likely;", "if (so == 0) {\n                return likely;");
+        }, "if (both == 0) { return likely;", "if (both == 0) { return 0;",
+                "if (both == 0) { return likely;", "if (both == 0) { return MILLION / 2;",
+                "if (both == 0) { return likely;", "if (both == 0) { return (int) x;",
+                "if (both == 0) { return likely;", "if (so == 0) { return likely;");
     }
 }

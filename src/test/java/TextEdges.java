@@ -13,7 +13,7 @@ final class TextEdges {
         village(edges);
         things(edges);
         edges.plain(TERMS, "In quotes is what stands there");
-        edges.plain(TERMS, "| one of some");
+        edges.plain(TERMS, "| one of some.");
         edges.plain("What it is", new StringBuilder("How one knows it is in the ending: a tongue of stems and endings, ")
                 .append("by person and by how one knows, whose sounds change where they meet; words made, and taken apart ")
                 .append("in all ways; a village through a day: who was where, what happened, loud or not, what follows from ")
@@ -26,9 +26,10 @@ final class TextEdges {
     private static void tokens(Edges edges) {
         edges.of("What it is", "An object is used for at most 512 calls after it has been made; what later calls answer is free.",
                 TextEdges::fiveHundredTwelveCalls,
-                "    private int refusedSayings;", "    private byte refusedSayings;");
+                "private int refusedSayings;", "private byte refusedSayings;");
         edges.of(TERMS, "A TEXT of at most 800 bytes tells a TONGUE and a VILLAGE.", TextEdges::longestText,
-                "end = Math.min(n, bytes.length);\n            at = 0;", "end = Math.min(n, bytes.length - 1);\n            at = 0;",
+                "end = Math.min(n, bytes.length); at = 0;",
+                        "end = Math.min(n, bytes.length - 1); at = 0;",
                 "MOST_BYTES = 800;", "MOST_BYTES = 780;");
         edges.of(TERMS, "TOKENS: words (a .. z, the longest row)", TextEdges::words,
                 "b >= 'a' && b <= 'z'", "b > 'a' && b <= 'z'",
@@ -173,7 +174,7 @@ final class TextEdges {
         edges.of(TERMS, "'stem' LETTERS", () -> {
             line("", "stem a");
             Check.fault(1, "stem a |1;");
-        }, "tongue.stems++;\n            return semicolon();", "tongue.stems++;\n            return true;");
+        }, "tongue.stems++; return semicolon();", "tongue.stems++; return true;");
         edges.of(TERMS, "'ending' BY HOW LETTERS", () -> {
             Check.fine("ending 0 0 a;");
             Check.fault(1, "ending|;");
@@ -187,7 +188,7 @@ final class TextEdges {
             line("", "change a b c");
             Check.fault(1, "change a b c |1;");
         }, "part < 3; part++", "part < 2; part++",
-                "tongue.changes++;\n            return semicolon();", "tongue.changes++;\n            return true;");
+                "tongue.changes++; return semicolon();", "tongue.changes++; return true;");
         edges.of(TERMS, "'not' LETTERS", () -> {
             Check.fine("not a;");
             Check.fault(1, "not|");
@@ -203,16 +204,16 @@ final class TextEdges {
             Check.fault(1, "places 1|");
             Check.fault(1, "places 1 |1;");
             Check.fault(1, "places |a;");
-        }, "town.places = value;\n            return semicolon();", "town.places = value;\n            return true;");
+        }, "town.places = value; return semicolon();", "town.places = value; return true;");
         edges.of(TERMS, "'near' PLACE PLACE", () -> {
             line("places 3;", "near 0 1");
             Check.fault(1, "places 3;near 0 1 |2;");
-        }, "town.near[value] |= 1 << first;\n            return semicolon();",
-                "town.near[value] |= 1 << first;\n            return true;");
+        }, "town.near[value] |= 1 << first; return semicolon();",
+                "town.near[value] |= 1 << first; return true;");
         edges.of(TERMS, "'person'", () -> {
             line("", "person");
             Check.fault(1, "person |0;");
-        }, "town.people++;\n            return semicolon();", "town.people++;\n            return true;");
+        }, "town.people++; return semicolon();", "town.people++; return true;");
     }
 
     private static void longerLines(Edges edges) {
@@ -228,31 +229,41 @@ final class TextEdges {
             Check.fault(1, stems + "thing 0 0 0 loud never|");
             Check.fault(1, stems + "thing 0 0 0 loud never |loud;");
             Check.fault(1, stems + "thing 0 0 |loud;");
-        }, "step();\n            }\n            return isSemicolon();", "step();\n            }\n            return true;");
+        }, "step(); } return isSemicolon();", "step(); } return true;");
         edges.of(TERMS, "'rule' THING THING THING*", () -> {
             String things = "stem a;stem b;thing 0 0 0;thing 1 0 0;";
             line(things, "rule 0 1");
             Check.fault(1, things + "rule |a 1;");
             Check.fault(1, things + "rule 0 |a;");
-        }, "town.rules++;\n            return isSemicolon();", "town.rules++;\n            return true;");
+        }, "town.rules++; return isSemicolon();", "town.rules++; return true;");
         edges.of(TERMS, "'at' PERSON HOUR PLACE", () -> {
             line("person;", "at 0 0 0");
             Check.fault(1, "person;at 0 0 0 |0;");
-        }, "town.stays[person * HOURS + hour] = value;\n            return semicolon();",
-                "town.stays[person * HOURS + hour] = value;\n            return true;");
+        }, "town.stays[person * HOURS + hour] = value; return semicolon();",
+                "town.stays[person * HOURS + hour] = value; return true;");
         edges.of(TERMS, "'weigh' HOW CHANCE CHANCE) ';'.", () -> {
             line("", "weigh 0 0 0");
             Check.fault(1, "weigh 0 0 0 |0;");
-        }, "town.chances[2 * how + 1] = value;\n            return semicolon();",
-                "town.chances[2 * how + 1] = value;\n            return true;");
-        edges.of(TERMS, "LINE: (", () -> {
+        }, "town.chances[2 * how + 1] = value; return semicolon();",
+                "town.chances[2 * how + 1] = value; return true;");
+        edges.of(TERMS, "LINE: ('stem' LETTERS | 'ending' BY HOW LETTERS | 'change' LETTERS LETTERS LETTERS | 'not' LETTERS | "
+                + "'places' NUMBER | 'near' PLACE PLACE | 'person' | 'thing' STEM PLACE HOUR ['loud'] ['never'] | "
+                + "'rule' THING THING THING* | 'at' PERSON HOUR PLACE | 'weigh' HOW CHANCE CHANCE) ';'.", () -> {
             Check.fault(1, "|foo;");
             Check.fault(1, "|0;");
             Check.fault(1, "|stems a;");
             Check.fault(1, "|ste;");
+            String[] names = {"stem", "ending", "change", "not", "places", "near", "person", "thing", "rule", "at", "weigh"};
+            for (String name : names) {
+                Check.fault(1, "|x" + name.substring(1) + " 0 0 0;");
+                Check.fault(1, "|" + name.substring(0, name.length() - 1) + "x 0 0 0;");
+                Check.fault(1, "|" + name.substring(1) + " 0 0 0;");
+            }
             Check.fault(1, "|loud;");
             Check.fault(1, "person;|never;");
-        }, "length != name.length()", "length < name.length()");
+        }, "length != name.length()", "length < name.length()",
+                "for (int i = 0; i < name.length(); i++) {", "for (int i = 1; i < name.length(); i++) {",
+                "for (int i = 0; i < name.length(); i++) {", "for (int i = 0; i < name.length() - 1; i++) {");
         edges.of(TERMS, "LETTERS are a word of at most 8 letters; all else in capitals are NUMBERS.", () -> {
             Check.fine("stem a;stem abcdefgh;ending 0 0 a;ending 0 1 abcdefgh;not abcdefgh;change abcdefgh abcdefgh abcdefgh;");
             Check.fault(2, "stem |abcdefghi;");
@@ -268,8 +279,8 @@ final class TextEdges {
 
     static final String TWELVE_STEMS =
             "stem a;stem b;stem c;stem d;stem e;stem f;stem g;stem h;stem i;stem j;stem k;stem l;";
-    static final String EIGHT_THINGS = "thing 0 0 0;thing 1 0 0;thing 2 0 0;thing 3 0 0;"
-            + "thing 4 0 0;thing 5 0 0;thing 6 0 0;thing 7 0 0;";
+    static final String EIGHT_THINGS = "thing 0 0 0;thing 1 0 0;thing 2 0 0;thing 3 0 0;thing 4 0 0;thing 5 0 0;"
+            + "thing 6 0 0;thing 7 0 0;";
 
     private static void tongue(Edges edges) {
         edges.of(TERMS, "STEMS 0, 1 .. (at most 12).", () -> {
@@ -281,8 +292,8 @@ final class TextEdges {
             Check.fault(2, TWELVE_STEMS + "|stem m;");
             Check.is("no stems", Check.of("person;").count(0), 0);
         }, "MOST_STEMS = 12;", "MOST_STEMS = 11;", "MOST_STEMS = 12;", "MOST_STEMS = 13;");
-        edges.of(TERMS, "An ENDING for each BY (0 to 2: I, you, one) and each HOW (0 SEEN, 1 HEARD, 2 TOLD, 3 WORKED OUT, "
-                + "4 DREAMT), or none.", TextEdges::fifteenEndings,
+        edges.of(TERMS, "An ENDING for each BY (0 to 2: I, you, one) and each HOW (0 SEEN, 1 HEARD, 2 TOLD, 3 WORKED OUT, 4 "
+                + "DREAMT), or none.", TextEdges::fifteenEndings,
                 "FIRST_ENDING + HOWS * by + how", "FIRST_ENDING + BYS * by + how",
                 "Arrays.fill(length, 0);", "length[NOT_SLOT] = 0;");
         edges.of(TERMS, "CHANGES 0, 1 .. (at most 6).", () -> {
@@ -293,8 +304,11 @@ final class TextEdges {
             Check.is("the first", x.word(1, 0, 0, -1), 1);
             Check.fault(2, five + "change f z x;|change g z x;");
             Check.is("none", Check.of("stem f;").count(1), 0);
+            EndingTown y = Check.of("stem f;ending 0 0 z;not f;" + five + "change g z yy;");
+            Check.is("none of six", y.word(0, 0, 0, -1), 2);
         }, "MOST_CHANGES = 6;", "MOST_CHANGES = 5;", "MOST_CHANGES = 6;", "MOST_CHANGES = 7;",
-                "change < changes; change++", "change < changes - 1; change++");
+                "change < changes; change++", "change < changes - 1; change++",
+                "change < changes; change++", "change < changes + 1; change++");
         edges.of(TERMS, "'not' tells the word NOT.", () -> {
             String text = "stem a;ending 2 0 b;person;thing 0 0 0;";
             Check.is("one letter", Check.utter(Check.of(text + "not n;"), 0, 0, "n ab"), 1);
@@ -302,7 +316,8 @@ final class TextEdges {
             Check.is("another word", Check.utter(Check.of(text + "not abcdefgh;"), 0, 0, "abcdefg ab"), -1);
             Check.is("none told", Check.utter(Check.of(text), 0, 0, "n ab"), -1);
         }, "hasNot() && many == length[NOT_SLOT]", "hasNot() && many <= length[NOT_SLOT]",
-                "if (!town.tongue.isNot(bytes, from, many)) {", "if (town.tongue.hasNot() && !town.tongue.isNot(bytes, from, many)) {");
+                "if (!town.tongue.isNot(bytes, from, many)) {",
+                        "if (town.tongue.hasNot() && !town.tongue.isNot(bytes, from, many)) {");
     }
 
     private static void fifteenEndings() {
@@ -330,8 +345,8 @@ final class TextEdges {
             Check.fault(3, "places 6;near 0 |6;");
             Check.fault(3, "near 0 |1;");
         }, "MOST_PLACES = 6;", "MOST_PLACES = 5;", "MOST_PLACES = 6;", "MOST_PLACES = 7;",
-                "tongue.clear();\n            places = 1;", "tongue.clear();\n            places = 2;",
-                "tongue.clear();\n            places = 1;", "tongue.clear();\n            places = 0;");
+                "tongue.clear(); places = 1;", "tongue.clear(); places = 2;",
+                "tongue.clear(); places = 1;", "tongue.clear(); places = 0;");
         edges.of(TERMS, "PEOPLE 0, 1 .. (at most 6)", () -> {
             EndingTown x = Check.of("person;person;person;person;person;person;");
             Check.is("people", x.count(3), 6);
@@ -347,26 +362,30 @@ final class TextEdges {
                     Check.is(person + " at " + hour, x.where(person, hour), hour < first[person] ? 0 : 1);
                 }
             }
-        }, "int place = 0;\n                for (int hour = 0;", "int place = places - 1;\n                for (int hour = 0;",
-                "int place = 0;\n                for (int hour = 0;", "int place = 0;\n                for (int hour = 1;",
-                "hour = 0; hour < HOURS; hour++) {\n                    int i", "hour = 0; hour < HOURS - 1; hour++) {\n                    int i",
+        }, "int place = 0; for (int hour = 0;", "int place = places - 1; for (int hour = 0;",
+                "int place = 0; for (int hour = 0;", "int place = 0; for (int hour = 1;",
+                "hour = 0; hour < HOURS; hour++) { int i",
+                        "hour = 0; hour < HOURS - 1; hour++) { int i",
                 "place = stays[i];", "place = 0;");
         edges.of(TERMS, "till another one tells otherwise (of one HOUR the last one that is told).", () -> {
-            EndingTown x = Check.of("places 4;person;person;at 0 5 1;at 0 9 2;at 0 5 3;at 0 2 1;at 1 0 3;at 1 0 2;at 1 23 1;at 1 23 0;");
+            EndingTown x = Check.of("places 4;person;person;at 0 5 1;at 0 9 2;at 0 5 3;at 0 2 1;at 1 0 3;at 1 0 2;"
+                    + "at 1 23 1;at 1 23 0;");
             for (int hour = 0; hour < 24; hour++) {
                 Check.is("0 at " + hour, x.where(0, hour), hour < 2 ? 0 : hour < 5 ? 1 : hour < 9 ? 3 : 2);
                 Check.is("1 at " + hour, x.where(1, hour), hour < 23 ? 2 : 0);
             }
         }, "town.stays[person * HOURS + hour] = value;",
-                "town.stays[person * HOURS + hour] = town.stays[person * HOURS + hour] == NONE ? value : town.stays[person * HOURS + hour];",
+                "town.stays[person * HOURS + hour] = town.stays[person * HOURS + hour] == NONE ? value : town.stays[person * "
+                        + "HOURS + hour];",
                 "town.stays[person * HOURS + hour] = value;",
                 "for (int h = hour; h < HOURS; h++) { town.stays[person * HOURS + h] = value; }");
     }
 
     private static void things(Edges edges) {
-        edges.of(TERMS, "THINGS 0, 1 .. (at most 8): a STEM (of which there is but one THING), a PLACE, an HOUR (0 to 23)", () -> {
-            EndingTown x = Check.of(TWELVE_STEMS + "places 6;thing 11 5 23;thing 0 0 0;thing 1 0 0;thing 2 0 0;thing 3 0 0;"
-                    + "thing 4 0 0;thing 5 0 0;thing 6 0 0;");
+        edges.of(TERMS, "THINGS 0, 1 .. (at most 8): a STEM (of which there is but one THING), a PLACE, an HOUR (0 to 23)",
+                () -> {
+            EndingTown x = Check.of(TWELVE_STEMS + "places 6;thing 11 5 23;thing 0 0 0;thing 1 0 0;thing 2 0 0;"
+                    + "thing 3 0 0;thing 4 0 0;thing 5 0 0;thing 6 0 0;");
             Check.is("things", x.count(4), 8);
             Check.is("the first STEM", x.thing(0, 0), 11);
             Check.is("its PLACE", x.thing(0, 1), 5);
@@ -381,8 +400,8 @@ final class TextEdges {
         }, "MOST_THINGS = 8;", "MOST_THINGS = 7;", "MOST_THINGS = 8;", "MOST_THINGS = 9;", "HOURS = 24;", "HOURS = 23;",
                 "if (town.thingOfStem(value) != NONE) {", "if (town.thingOfStem(value) > 0) {");
         edges.of(TERMS, "LOUD or not; NEVER: it did not happen.", () -> {
-            EndingTown x = Check.of("stem a;stem b;stem c;places 2;near 0 1;person;person;at 1 0 1;"
-                    + "thing 0 0 0;thing 1 0 0 loud;thing 2 0 0 loud never;");
+            EndingTown x = Check.of("stem a;stem b;stem c;places 2;near 0 1;person;person;at 1 0 1;thing 0 0 0;"
+                    + "thing 1 0 0 loud;thing 2 0 0 loud never;");
             Check.is("0 saw it", x.could(0, 0, 0, false), 1 | 16);
             Check.is("1 didn't hear it", x.could(1, 0, 0, false), 16);
             Check.is("1 heard it", x.could(1, 0, 1, false), 2 | 16);
@@ -415,11 +434,11 @@ final class TextEdges {
             }
             Check.fault(2, "weigh 0 |1000 0;");
             Check.fault(2, "weigh 0 0 |1000;");
-        }, "number(1000)) {\n                return false;\n            }\n            town.chances[2 * how] = value;",
-                "number(998)) {\n                return false;\n            }\n            town.chances[2 * how] = value;",
-                "number(1000)) {\n                return false;\n            }\n            town.chances[2 * how + 1] = value;",
-                "number(998)) {\n                return false;\n            }\n            town.chances[2 * how + 1] = value;",
-                "Arrays.fill(chances, 500);", "Arrays.fill(chances, 500);\n            chances[0] = 501;",
-                "Arrays.fill(chances, 500);", "Arrays.fill(chances, 500);\n            chances[9] = 501;");
+        }, "number(1000)) { return false; } town.chances[2 * how] = value;",
+                "number(998)) { return false; } town.chances[2 * how] = value;",
+                "number(1000)) { return false; } town.chances[2 * how + 1] = value;",
+                "number(998)) { return false; } town.chances[2 * how + 1] = value;",
+                "Arrays.fill(chances, 500);", "Arrays.fill(chances, 500); chances[0] = 501;",
+                "Arrays.fill(chances, 500);", "Arrays.fill(chances, 500); chances[9] = 501;");
     }
 }

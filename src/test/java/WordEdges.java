@@ -28,19 +28,22 @@ final class WordEdges {
             word(x, 0, 2, 4, "aijklmnop");
             word(x, 1, 2, 4, "abcdefghijklmnop");
             word(x, 1, 2, 3, "");
-        }, "add(stem, 0, length[stem]);\n                add(ending, 0, length[ending]);",
-                "add(ending, 0, length[ending]);\n                add(stem, 0, length[stem]);",
+        }, "add(stem, 0, length[stem]); add(ending, 0, length[ending]);",
+                "add(ending, 0, length[ending]); add(stem, 0, length[stem]);",
                 "MOST_MADE = 3 * MOST_LETTERS", "MOST_MADE = 2 * MOST_LETTERS - 1",
                 "if (length[ending] == 0) {", "if (length[ending] < 0) {");
         edges.of(PART, "but the first CHANGE of which the first LETTERS end the STEM", () -> {
-            EndingTown x = Check.of("stem bab;stem b;stem xbab;ending 0 0 z;change ba z p;change abab z q;change bab z r;"
-                    + "change b z s;");
+            EndingTown x = Check.of("stem bab;stem b;stem xbab;ending 0 0 z;change ba z p;change abab z q;"
+                    + "change bab z r;change b z s;");
             word(x, 0, 0, 0, "r");
             word(x, 1, 0, 0, "s");
             word(x, 2, 0, 0, "xr");
+            EndingTown y = Check.of("stem abcdefgx;stem a;ending 0 0 z;change xa z q;");
+            word(y, 1, 0, 0, "az");
         }, "standsAt(stem, length[stem] - length[old], old)", "standsAt(stem, 0, old)",
                 "for (int change = 0; change < changes; change++) {", "for (int change = changes - 1; change >= 0; change--) {",
-                "return i >= 0 && i + length[part]", "return i > 0 && i + length[part]");
+                "return i >= 0 && i + length[part]", "return i > 0 && i + length[part]",
+                "return i >= 0 && i + length[part]", "return i >= -1 && i + length[part]");
         edges.of(PART, "and the second ones begin the ENDING", () -> {
             EndingTown x = Check.of("stem a;ending 0 0 bcb;ending 0 1 b;ending 0 2 bcbd;change a cb p;change a bcbb q;"
                     + "change a bcb r;change a b s;");
@@ -82,10 +85,16 @@ final class WordEdges {
             Check.is("longer than any WORD", Check.apart(x, "abcdefghabcdefghabcdefghi"), 0);
             Check.is("800 letters", Check.apart(x, "a".repeat(800)), 0);
             Check.is("a STEM without an ENDING", Check.apart(x, "x"), 0);
+            EndingTown y = Check.of("stem a;stem abcdefgh;ending 0 0 b;ending 0 1 ijklmnop;change a b c;change h i qrstuvwx;");
+            Check.is("one letter", Check.apart(y, "c"), 1);
+            Check.is("22 letters", Check.apart(y, "abcdefgqrstuvwxjklmnop"), 1);
+            Check.is("their WAY", y.way(0), 16);
         }, "return many == madeLength && areSame(made, 0, row, from, many);", "return areSame(made, 0, row, from, many - 1);",
                 "tongue.make(stem, by, how) == many && tongue.isMade(row, from, many)",
                 "tongue.make(stem, by, how) > 0 && areSame(tongue.made, 0, row, from, tongue.madeLength)",
-                "if (many < 1 || many > Tongue.MOST_MADE) {", "if (many < 4) {");
+                "if (many < 1 || many > Tongue.MOST_MADE) {", "if (many < 4) {",
+                "if (many < 1 || many > Tongue.MOST_MADE) {", "if (many < 2) {",
+                "if (many < 1 || many > Tongue.MOST_MADE) {", "if (many < 1 || many > Tongue.MOST_MADE - 3) {");
         edges.of(PART, "by STEM, then BY, then HOW.", () -> {
             EndingTown x = Check.of("stem a;".repeat(12) + fifteenAlike("b"));
             Check.is("180 WAYS", Check.apart(x, "ab"), 180);
@@ -121,6 +130,9 @@ final class WordEdges {
             clear("\n n\n\n ab  ", 1);
             clear(" ".repeat(395) + "n " + "\n".repeat(390) + "ab", 1);
             clear("n" + " ".repeat(797) + "ab", 1);
+            EndingTown x = Check.of("stem a;ending 2 0 b;change a b c;not n;person;thing 0 0 0;");
+            Check.is("a WORD of one letter", Check.utter(x, 0, 0, "c"), 1);
+            Check.is("and NOT of it", Check.utter(x, 0, 0, "n c"), 2);
             unclear("");
             unclear(" ");
             unclear("n");
@@ -143,14 +155,15 @@ final class WordEdges {
             unclear("ab;");
             unclear("n ab" + " ".repeat(795) + "!");
         }, "if (many == 0 || at < end) {", "if (many == 0) {",
-                "if (at < end) {\n                not = true;", "if (at < end) {\n                skipBlanks();",
+                "if (at < end) { not = true;", "if (at < end) { skipBlanks();",
                 "if (!town.tongue.isNot(bytes, from, many)) {", "if (many == 0) {",
-                "not = false;\n            skipBlanks();", "not = false;",
-                "many = takeWord();\n                skipBlanks();", "many = takeWord();",
-                "int many = takeWord();\n            skipBlanks();", "int many = takeWord();",
-                "at = 0;\n            end = Math.min(n, bytes.length);", "at = 0;\n            end = Math.min(n, bytes.length - 1);");
-        edges.of(PART, "(A WORD that is NOT's own stands for NOT, if another word comes behind it; an UTTERANCE of one word is "
-                + "that WORD.)", () -> {
+                "not = false; skipBlanks();", "not = false;",
+                "from = at; many = takeWord(); skipBlanks();", "from = at; many = takeWord();",
+                "int many = takeWord(); skipBlanks();", "int many = takeWord();",
+                "at = 0; end = Math.min(n, bytes.length);",
+                        "at = 0; end = Math.min(n, bytes.length - 1);");
+        edges.of(PART, "(A WORD that is NOT's own stands for NOT, if another word comes behind it; an UTTERANCE of one word "
+                + "is that WORD.)", () -> {
             EndingTown x = Check.of("stem n;ending 2 0 e;not ne;person;thing 0 0 0;");
             Check.is("one word", Check.utter(x, 0, 0, "ne"), 1);
             Check.is("without NOT", x.saying(0, 4), 0);
@@ -159,8 +172,8 @@ final class WordEdges {
             Check.is("two", Check.utter(x, 0, 0, "ne ne"), 3);
             Check.is("with NOT", x.saying(2, 4), 1);
             Check.is("three", Check.utter(x, 0, 0, "ne ne ne"), -1);
-        }, "if (at < end) {\n                not = true;", "if (at < end || town.tongue.isNot(bytes, from, many)) {\n                not = true;",
-                "                not = true;\n", "");
+        }, "if (at < end) { not = true;", "if (at < end || town.tongue.isNot(bytes, from, many)) { not = true;",
+                "not = true;", "");
     }
 
     private static void clear(Edges edges) {
@@ -190,7 +203,8 @@ final class WordEdges {
             Check.is("the first THING", Check.utter(x, 0, 0, "cz"), 2);
             Check.is("its number", x.saying(1, 2), 0);
             Check.is("its HOW", x.saying(1, 3), 3);
-        }, "return way / HOWS % BYS == ONE && thing != NONE;", "thing = Math.max(0, thing);\n            return way / HOWS % BYS == ONE;",
+        }, "return way / HOWS % BYS == ONE && thing != NONE;",
+                "thing = Math.max(0, thing); return way / HOWS % BYS == ONE;",
                 "thing = town.thingOfStem(way / (HOWS * BYS));", "thing = way / (HOWS * BYS);");
     }
 }

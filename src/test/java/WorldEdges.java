@@ -2,8 +2,8 @@
 final class WorldEdges {
     private static final String PART = "==== 5";
     /** 0 sees the things 0 and 1, 1 the things 1 and 2, 2 nothing, 3 the thing 2; the thing 1 never was. */
-    private static final String VILLAGE = "stem a;stem b;stem c;stem d;places 4;thing 0 0 2;thing 1 0 4 never;thing 2 1 6;thing 3 2 0;"
-            + "person;person;person;person;at 1 0 3;at 1 4 0;at 1 5 1;at 2 0 3;at 3 0 3;at 3 6 1;at 3 7 3;";
+    private static final String VILLAGE = "stem a;stem b;stem c;stem d;places 4;thing 0 0 2;thing 1 0 4 never;thing 2 1 "
+            + "6;thing 3 2 0;person;person;person;person;at 1 0 3;at 1 4 0;at 1 5 1;at 2 0 3;at 3 0 3;at 3 6 1;at 3 7 3;";
 
     private WorldEdges() {
     }
@@ -16,7 +16,7 @@ final class WorldEdges {
             Check.is("NONE", EndingTown.NONE, -1);
             Check.is("an unsay of none", new EndingTown().unsay(), -1);
         }, "public static final int NONE = -1;", "public static final int NONE = -2;",
-                "if (ledger.size == 0) {\n            return NONE;", "if (ledger.size == 0) {\n            return 0;");
+                "if (ledger.size == 0) { return NONE;", "if (ledger.size == 0) { return 0;");
     }
 
     private static void worlds(Edges edges) {
@@ -41,13 +41,21 @@ final class WorldEdges {
             Check.is("not that it is", x.known(0, 1, 1, false), false);
             Check.is("1 knows 2 is so", x.known(1, 1, 2, false), true);
             Check.is("not that it isn't", x.known(1, 1, 2, true), false);
+            x.worlds(2);
+            Check.is("alone, it is not so either", x.known(0, 1, 1, true), true);
+            Check.is("and that is left", x.tell(0, 1, true), 1);
+            x.worlds(12);
+            Check.is("of others, 2 is so", x.known(1, 1, 2, false), true);
         }, "if (hasBit(things & ~town.never, thing)) {", "if (hasBit(things, thing)) {",
                 "if (hasBit(things & ~town.never, thing)) {", "if (hasBit(things & town.never, thing)) {",
+                "int world = 0; for (int thing", "int world = 1; for (int thing",
                 "return Integer.bitCount(things & ((1 << thing) - 1));", "return Math.min(3, thing) & ~1;");
-        edges.of(PART, "One DISTINGUISHES those THINGS of them at whose PLACES he was at their HOURS (and all know so of all).", () -> {
+        edges.of(PART, "One DISTINGUISHES those THINGS of them at whose PLACES he was at their HOURS (and all know so of all).",
+                () -> {
             EndingTown x = Check.of(VILLAGE);
             x.worlds(15);
-            boolean[][] due = {{true, true, false, false}, {false, true, true, false}, {false, false, false, false}, {false, false, true, false}};
+            boolean[][] due = {{true, true, false, false}, {false, true, true, false}, {false, false, false, false}, {false,
+                    false, true, false}};
             for (int person = 0; person < 4; person++) {
                 for (int thing = 0; thing < 4; thing++) {
                     Check.is(person + " knows of " + thing, x.known(person, 1, thing, thing == 1), due[person][thing]);
@@ -58,8 +66,10 @@ final class WorldEdges {
                 }
             }
         }, "if (hasBit(things, thing) && town.wasThere(person, thing)) {", "if (hasBit(things, thing)) {",
-                "if (hasBit(things, thing) && town.wasThere(person, thing)) {", "if (hasBit(things & ~town.never, thing) && town.wasThere(person, thing)) {",
-                "if (hasBit(things, thing) && town.wasThere(person, thing)) {", "if (hasBit(things, thing) && town.placeAt(person, HOURS - 1) == town.placeOf[thing]) {");
+                "if (hasBit(things, thing) && town.wasThere(person, thing)) {",
+                        "if (hasBit(things & ~town.never, thing) && town.wasThere(person, thing)) {",
+                "if (hasBit(things, thing) && town.wasThere(person, thing)) {",
+                        "if (hasBit(things, thing) && town.placeAt(person, HOURS - 1) == town.placeOf[thing]) {");
         edges.of(PART, "He KNOWS in a WORLD what is so in all WORLDS left that he can't tell from it.", () -> {
             EndingTown x = Check.of(VILLAGE);
             x.worlds(6);
@@ -75,8 +85,8 @@ final class WorldEdges {
     }
 
     private static void words(Edges edges) {
-        edges.of(PART, "WORDS IN PUBLIC: a PERSON says that he KNOWS a THING is so (or not so): if he does in THE REAL ONE, WORLDS in which he "
-                + "doesn't are left out.", () -> {
+        edges.of(PART, "WORDS IN PUBLIC: a PERSON says that he KNOWS a THING is so (or not so): if he does in THE REAL ONE, "
+                + "WORLDS in which he doesn't are left out.", () -> {
             EndingTown x = Check.of(VILLAGE);
             x.worlds(15);
             Check.is("he doesn't", x.tell(2, 0, false), -1);
@@ -93,10 +103,12 @@ final class WorldEdges {
             Check.is("the last one", x.tell(3, 2, false), 1);
             Check.is("and it stays", x.tell(2, 2, false), 1);
         }, "if (!hasBit(knowing, realWorld())) {", "if (knowing == 0) {",
-                "left = knowing;\n            return true;", "left &= 1 << realWorld();\n            return true;",
-                "left = knowing;\n            return true;", "return true;",
-                "if (!hasBit(knowing, realWorld())) {\n                return false;", "if (!hasBit(knowing, realWorld())) {\n                left = knowing;\n                return false;");
-        edges.of(PART, "STATUS: how many calls were refused: 0 of TEXTS with a FAULT, 1 of SAYINGS, 2 of WORDS IN PUBLIC.", () -> {
+                "left = knowing; return true;", "left &= 1 << realWorld(); return true;",
+                "left = knowing; return true;", "return true;",
+                "if (!hasBit(knowing, realWorld())) { return false;",
+                        "if (!hasBit(knowing, realWorld())) { left = knowing; return false;");
+        edges.of(PART, "STATUS: how many calls were refused: 0 of TEXTS with a FAULT, 1 of SAYINGS, 2 of WORDS IN PUBLIC.",
+                () -> {
             EndingTown x = Check.of(VILLAGE);
             status(x, 0, 0, 0);
             Check.village(x, "foo");
@@ -121,9 +133,9 @@ final class WorldEdges {
             status(x, 1, 2, 1);
         }, "refusedTexts++;", "refusedTexts += 2;",
                 "refusedWords++;", "refusedWords = 2;",
-                "if (how < 0 || how >= HOWS || !ledger.add(person, hour, thing, how, not)) {\n            refusedSayings++;",
-                "if (how < 0 || how >= HOWS || !ledger.add(person, hour, thing, how, not)) {\n            refusedTexts++;",
-                "utterance.not)) {\n            refusedSayings++;", "utterance.not)) {\n            refusedSayings += 0;");
+                "if (how < 0 || how >= HOWS || !ledger.add(person, hour, thing, how, not)) { refusedSayings++;",
+                "if (how < 0 || how >= HOWS || !ledger.add(person, hour, thing, how, not)) { refusedTexts++;",
+                "utterance.not)) { refusedSayings++;", "utterance.not)) { refusedSayings += 0;");
     }
 
     private static void status(EndingTown x, int texts, int sayings, int words) {
@@ -133,7 +145,8 @@ final class WorldEdges {
     }
 
     private static void known(Edges edges) {
-        edges.of(PART, "KNOWN by a row of PEOPLE (1 to 4): in THE REAL ONE the first KNOWS that the second KNOWS .. that the THING is so (not so).", () -> {
+        edges.of(PART, "KNOWN by a row of PEOPLE (1 to 4): in THE REAL ONE the first KNOWS that the second KNOWS .. that the "
+                + "THING is so (not so).", () -> {
             EndingTown x = Check.of(VILLAGE);
             x.worlds(7);
             Check.is("one", x.known(3, 1, 2, false), true);
