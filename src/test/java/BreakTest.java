@@ -43,7 +43,7 @@ public final class BreakTest {
             if (place.find()) {
                 return "stands in the program more than once";
             }
-            Map<String, byte[]> classes = BrokenProgram.compiled(text);
+            Map<String, byte[]> classes = BrokenProgram.compiled("EndingTown", text);
             if (classes.isEmpty()) {
                 return "does not compile when broken";
             }

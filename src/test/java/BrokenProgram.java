@@ -51,13 +51,13 @@ final class BrokenProgram extends ClassLoader {
         }
     }
 
-    /** The classes of the program's text by name; none, if it doesn't compile. */
-    static Map<String, byte[]> compiled(String source) {
+    /** The classes of a text by name, the text being that of the class so named; none, if it doesn't compile. */
+    static Map<String, byte[]> compiled(String main, String source) {
         JavaCompiler compiler = ToolProvider.getSystemJavaCompiler();
         Map<String, ByteArrayOutputStream> made = new HashMap<>();
         JavaFileManager files = new Memory(compiler.getStandardFileManager(null, null, null), made);
         boolean fine = compiler.getTask(Writer.nullWriter(), files, diagnostic -> { }, List.of("-proc:none"), null,
-                List.of(new Source(source))).call();
+                List.of(new Source(main, source))).call();
         Map<String, byte[]> classes = new HashMap<>();
         if (fine) {
             made.forEach((name, bytes) -> classes.put(name, bytes.toByteArray()));
@@ -65,12 +65,12 @@ final class BrokenProgram extends ClassLoader {
         return classes;
     }
 
-    /** The program's text. */
+    /** A class's text. */
     private static final class Source extends SimpleJavaFileObject {
         private final String text;
 
-        Source(String text) {
-            super(URI.create("string:///EndingTown.java"), Kind.SOURCE);
+        Source(String main, String text) {
+            super(URI.create("string:///" + main + ".java"), Kind.SOURCE);
             this.text = text;
         }
 

@@ -9,7 +9,7 @@ public final class ModelTest {
             Model m = Model.random(random);
             EndingTown x = Check.of(m.text());
             places(seed, x, m);
-            int sayings = seed % 10 == 0 ? 20 : random.nextInt(8);
+            int sayings = sayings(seed, random);
             int hours = random.nextBoolean() ? 5 : 24;
             int hard = random.nextInt(3);
             for (int i = 0; i < sayings; i++) {
@@ -32,6 +32,15 @@ public final class ModelTest {
             worlds(seed, x, m, random);
         }
         Check.end();
+    }
+
+    /** Few, as a rule; now and then as many as there may be, or as may be mended. */
+    private static int sayings(int seed, Random random) {
+        switch (seed % 10) {
+            case 0: return 20;
+            case 5: return 10 + random.nextInt(3);
+            default: return random.nextInt(8);
+        }
     }
 
     /** Mostly told and worked out, where it shall be hard. */
@@ -74,7 +83,7 @@ public final class ModelTest {
     }
 
     private static void choosing(int seed, EndingTown x, Model m) {
-        if (m.said.size() <= 7) {
+        if (m.said.size() <= 12) {
             int[] due = m.mend();
             Check.is(seed + " mend", x.mend(), due[0]);
             for (int i = 0; i < m.said.size(); i++) {
